@@ -215,7 +215,7 @@ public final class BellTable {
         if (!ranges.parting) {
             return STATE;
         }
-        return orNone(deft.takesOf(ranges.bellsOf(r), NONE, NONE));
+        return orNone(deft.takesOf(ranges.bellsOf(r)));
     }
 
     public int cover(int r) {
@@ -552,6 +552,10 @@ public final class BellTable {
             return k >= 0 && k < size;
         }
 
+        boolean isOn(long bells, int k) {
+            return (bells >>> bell[k] & 1) != 0;
+        }
+
         /** Beats never go down while a text is read, so only the rows' end can have this beat. */
         boolean hasAt(int aBeat, int aBell) {
             boolean found = false;
@@ -823,9 +827,9 @@ public final class BellTable {
     }
 
     /**
-     * HANDS. The STROKES in question stand in a row. Ahead of each, one hand did the one before it, so all that
-     * matters besides is what the other hand did last: 0 for nothing yet, i + 1 for the row's STROKE i. Which hand
-     * is which makes no difference to the price.
+     * HANDS. The STROKES in question stand in a row. When some of them are done, one hand did the last of these, so
+     * all that matters besides is what the other hand did: 0 for nothing yet, i + 1 for the row's STROKE i. Which
+     * hand is which makes no difference to the TAKES.
      */
     private static final class Hands {
         final Strokes score;
@@ -835,9 +839,12 @@ public final class BellTable {
 
         private final int[] row = new int[STROKES];
         private int size;
-        private final int[] price = new int[STROKES + 1];
-        private final Bits stays = new Bits();
-        private final Bits swaps = new Bits();
+        /** By how many are done and what the other hand did: the fewest TAKES of the rest. */
+        private final int[] rest = new int[STROKES * (STROKES + 1) / 2];
+        /** With so many done, or fewer, there is no way to the end. */
+        private int stuck;
+        /** By what the other hand did: the fewest TAKES of those that are done. */
+        private final int[] past = new int[STROKES];
 
         Hands(Strokes score, Manners rules) {
             this.score = score;
@@ -848,72 +855,184 @@ public final class BellTable {
             chosen = false;
         }
 
-        /** TAKES for a set of BELLS, without one STROKE and with another one besides (or NONE); or NEVER. */
-        int takesOf(long bells, int without, int with) {
-            gather(bells, without, with);
-            return fewest(false);
+        /** TAKES of a set of BELLS; NEVER if it can't be. */
+        int takesOf(long bells) {
+            gather(bells);
+            return weighRest();
         }
 
-        /** TAKES for a set of BELLS, keeping the least row of hands; NEVER, and all stays, if it can't be. */
+        /** TAKES of a set of BELLS, keeping the least row of hands; NEVER, and all stays, if it can't be. */
         int choose(long bells) {
-            gather(bells, NONE, NONE);
-            int takes = fewest(true);
+            int takes = takesOf(bells);
             if (takes < NEVER) {
                 keepHands();
             }
             return takes;
         }
 
-        private void gather(long bells, int without, int with) {
+        /** By each STROKE of a set of BELLS: TAKES of the others, or NEVER. */
+        void weighWithout(long bells, int[] takes) {
+            takesOf(bells);
+            past[0] = 0;
+            for (int done = 0; done < size; done++) {
+                takes[row[done]] = takesSkipping(done);
+                stepForth(done);
+            }
+        }
+
+        /** By each STROKE of the BELLS besides: TAKES of the set with that one too, or NEVER. */
+        void weighWith(long bells, long besides, int[] takes) {
+            takesOf(bells);
+            past[0] = 0;
+            int done = 0;
+            for (int k = 0; k < score.size; k++) {
+                if (done < size && row[done] == k) {
+                    stepForth(done);
+                    done++;
+                } else if (score.isOn(besides, k)) {
+                    takes[k] = takesInserting(k, done);
+                }
+            }
+        }
+
+        private void gather(long bells) {
             size = 0;
             for (int k = 0; k < score.size; k++) {
-                boolean own = (bells >>> score.bell[k] & 1) != 0 && k != without;
-                if (own || k == with) {
+                if (score.isOn(bells, k)) {
                     row[size] = k;
                     size++;
                 }
             }
         }
 
-        private int fewest(boolean keeping) {
-            for (int other = 0; other <= size; other++) {
-                price[other] = 0;
+        private int weighRest() {
+            stuck = 0;
+            for (int other = 0; other < size; other++) {
+                rest[place(size, other)] = 0;
             }
-            boolean can = true;
-            for (int t = size - 1; t > 0 && can; t--) {
-                can = stepBack(t, keeping);
+            for (int done = size - 1; done > 0 && stuck == 0; done--) {
+                if (!stepBack(done)) {
+                    stuck = done;
+                }
             }
-            return can ? price[0] : NEVER;
+            return size == 0 ? 0 : restOf(1, 0);
         }
 
-        /** From the prices behind the row's STROKE t to those ahead of it; false if nothing goes from there. */
-        private boolean stepBack(int t, boolean keeping) {
-            int now = row[t];
-            int last = row[t - 1];
+        private static int place(int done, int other) {
+            return done * (done - 1) / 2 + other;
+        }
+
+        private int restOf(int done, int other) {
+            return done <= stuck ? NEVER : rest[place(done, other)];
+        }
+
+        /** The STROKE that a hand did, told as what the other hand did is. */
+        private int did(int other) {
+            return other <= 0 ? NONE : row[other - 1];
+        }
+
+        /** How many there are of what the other hand may have done. */
+        private static int others(int done) {
+            return Math.max(1, done);
+        }
+
+        /** From what is left behind the row's next STROKE to what is left ahead of it; false if nothing goes. */
+        private boolean stepBack(int done) {
+            int now = row[done];
+            int last = row[done - 1];
+            int ahead = place(done, 0);
+            int behind = place(done + 1, 0);
             int staying = move(last, now);
-            int swapping = holds(last, now) ? NEVER : price[t];
-            boolean can = false;
-            for (int other = 0; other < t; other++) {
-                int stay = staying + price[other];
-                int swap = swapping;
-                if (other > 0) {
-                    int before = row[other - 1];
-                    stay = holds(before, now) ? NEVER : stay;
-                    swap += swapping < NEVER ? move(before, now) : 0;
-                }
+            int swapping = holds(last, now) ? NEVER : rest[behind + done];
+            boolean goes = false;
+            for (int other = 0; other < done; other++) {
+                int before = did(other);
+                int stay = holds(before, now) ? NEVER : staying + rest[behind + other];
+                int swap = swapping >= NEVER ? NEVER : swapping + move(before, now);
                 int least = Math.min(NEVER, Math.min(stay, swap));
-                price[other] = least;
-                can |= least < NEVER;
-                if (keeping) {
-                    stays.put(t, other, stay == least);
-                    swaps.put(t, other, swap == least);
-                }
+                rest[ahead + other] = least;
+                goes = goes || least < NEVER;
             }
-            return can;
+            return goes;
         }
 
-        /** TAKES of one hand from a STROKE to the next it does; NEVER if there are too few beats between. */
+        private void stepForth(int done) {
+            int now = row[done];
+            int last = did(done);
+            int swapped = NEVER;
+            for (int other = 0; other < others(done); other++) {
+                int before = did(other);
+                swapped = Math.min(swapped, past[other] + step(before, last, now));
+                past[other] = Math.min(NEVER, past[other] + step(last, before, now));
+            }
+            if (done > 0) {
+                past[done] = swapped;
+            }
+        }
+
+        private int takesSkipping(int done) {
+            int last = did(done);
+            int least = NEVER;
+            for (int other = 0; other < others(done); other++) {
+                int before = did(other);
+                int more = 0;
+                if (done + 1 < size) {
+                    int now = row[done + 1];
+                    int stay = step(last, before, now) + restOf(done + 2, other);
+                    int swap = step(before, last, now) + restOf(done + 2, done);
+                    more = Math.min(stay, swap);
+                }
+                least = Math.min(least, past[other] + more);
+            }
+            return least;
+        }
+
+        private int takesInserting(int k, int done) {
+            int last = did(done);
+            int beside = restBeside(k, done + 1);
+            int least = NEVER;
+            int swapped = NEVER;
+            for (int other = 0; other < others(done); other++) {
+                int before = did(other);
+                int stayed = past[other] + step(last, before, k);
+                least = Math.min(least, stayed + restBehind(k, other, done, beside));
+                swapped = Math.min(swapped, past[other] + step(before, last, k));
+            }
+            return Math.min(least, swapped + restBehind(k, done, done, beside));
+        }
+
+        /** TAKES of the rest, if a STROKE from outside the row was done last. */
+        private int restBehind(int k, int other, int done, int beside) {
+            if (done >= size) {
+                return 0;
+            }
+            int now = row[done];
+            int before = did(other);
+            int stay = step(k, before, now) + restOf(done + 1, other);
+            return Math.min(stay, step(before, k, now) + beside);
+        }
+
+        /** TAKES of the rest, if a STROKE from outside the row is what the other hand did. */
+        private int restBeside(int k, int done) {
+            int least = 0;
+            for (int t = size - 1; t >= done; t--) {
+                int stay = step(row[t - 1], k, row[t]) + least;
+                int swap = step(k, row[t - 1], row[t]) + restOf(t + 1, t);
+                least = Math.min(NEVER, Math.min(stay, swap));
+            }
+            return least;
+        }
+
+        /** TAKES of a hand from what it did last to a new STROKE, beside what the other hand did; or NEVER. */
+        private int step(int mine, int other, int now) {
+            return holds(other, now) ? NEVER : move(mine, now);
+        }
+
+        /** TAKES of one hand from a STROKE (or NONE) to a new one; NEVER if there are too few beats between. */
         private int move(int from, int to) {
+            if (from == NONE) {
+                return 0;
+            }
             boolean fromStick = score.manner[from] == STICK;
             boolean toStick = score.manner[to] == STICK;
             int beats = score.beat[to] - score.beat[from];
@@ -931,9 +1050,9 @@ public final class BellTable {
             return beats >= least ? 1 : NEVER;
         }
 
-        /** If the hand that did a STROKE has the BELL of another one in it since. */
+        /** If the hand that did a STROKE (or NONE) has the BELL of another one in it since. */
         private boolean holds(int did, int now) {
-            return score.manner[did] != STICK && score.bell[did] == score.bell[now];
+            return did != NONE && score.manner[did] != STICK && score.bell[did] == score.bell[now];
         }
 
         private void keepHands() {
@@ -943,14 +1062,25 @@ public final class BellTable {
             chosen = true;
             int hand = 0;
             int other = 0;
-            for (int t = 0; t < size; t++) {
-                boolean swapping = hand == 0 ? !stays.has(t, other) : swaps.has(t, other);
-                if (t > 0 && swapping) {
+            for (int done = 0; done < size; done++) {
+                if (done > 0 && swapsFor(hand, done, other)) {
                     hand = 1 - hand;
-                    other = t;
+                    other = done;
                 }
-                handOf[row[t]] = hand;
+                handOf[row[done]] = hand;
             }
+        }
+
+        /** The hand 0 wherever it is as good. */
+        private boolean swapsFor(int hand, int done, int other) {
+            int now = row[done];
+            int last = row[done - 1];
+            int before = did(other);
+            int due = restOf(done, other);
+            if (hand == 0) {
+                return step(last, before, now) + restOf(done + 1, other) != due;
+            }
+            return step(before, last, now) + restOf(done + 1, done) == due;
         }
     }
 
@@ -1060,7 +1190,7 @@ public final class BellTable {
                     int bell = used[first + n - 1];
                     bells |= 1L << bell;
                     boolean reached = bell - used[first] <= rules.value[Manners.REACH];
-                    pieceTakes[first * PIECES + n] = reached ? deft.takesOf(bells, NONE, NONE) : NEVER;
+                    pieceTakes[first * PIECES + n] = reached ? deft.takesOf(bells) : NEVER;
                 }
             }
             weighed = true;
@@ -1129,6 +1259,9 @@ public final class BellTable {
         int stroke = NONE;
         int ringer = NONE;
 
+        private final int[] without = new int[STROKES];
+        private final int[] byBelow = new int[STROKES];
+        private final int[] byAbove = new int[STROKES];
         private int least;
 
         Helping(Strokes score, Hands deft, Ranges ranges) {
@@ -1145,24 +1278,28 @@ public final class BellTable {
         /** The least sum of TAKES; NEVER, and all stays, if no one STROKE does. A neighbour who can't is NONE. */
         int seek(int r, int below, int above) {
             long own = ranges.bellsOf(r);
+            deft.weighWithout(own, without);
+            weighNeighbour(below, own, byBelow);
+            weighNeighbour(above, own, byAbove);
             least = NEVER;
-            for (int k = 0; k < score.size && least > 0; k++) {
-                if ((own >>> score.bell[k] & 1) != 0) {
-                    int rest = deft.takesOf(own, k, NONE);
-                    tryOne(k, below, rest);
-                    tryOne(k, above, rest);
+            for (int k = 0; k < score.size; k++) {
+                if (score.isOn(own, k)) {
+                    keepIfLess(k, below, byBelow[k]);
+                    keepIfLess(k, above, byAbove[k]);
                 }
             }
             return least;
         }
 
-        private void tryOne(int k, int neighbour, int rest) {
-            // a sum that can't be less than the least needs no weighing
-            if (neighbour == NONE || rest >= least) {
-                return;
+        private void weighNeighbour(int neighbour, long own, int[] takes) {
+            if (neighbour != NONE) {
+                deft.weighWith(ranges.bellsOf(neighbour), own, takes);
             }
-            int sum = rest + deft.takesOf(ranges.bellsOf(neighbour), NONE, k);
-            if (sum < least) {
+        }
+
+        private void keepIfLess(int k, int neighbour, int takes) {
+            int sum = without[k] + takes;
+            if (neighbour != NONE && sum < least) {
                 least = sum;
                 stroke = k;
                 ringer = neighbour;
@@ -1336,7 +1473,7 @@ public final class BellTable {
         int pointsOn(long bells) {
             int points = 0;
             for (int k = 0; k < score.size; k++) {
-                if ((bells >>> score.bell[k] & 1) != 0) {
+                if (score.isOn(bells, k)) {
                     points += pointsOf(k);
                 }
             }

@@ -951,10 +951,43 @@ public final class OracleTest {
         }
     }
 
+    /** PARTINGS by hand, as no RANGES would be, where many a STROKE can be helped out with. */
+    private static void helpRun(int run) {
+        random = new Random(run);
+        BellTable x = new BellTable();
+        Oracle o = new Oracle();
+        int ringers = 2 + upTo(3);
+        due(run, 12, "ringers", x.ringers(ringers), o.ringers(ringers));
+        int bells = 3 + upTo(5);
+        for (int i = 0; i < STEPS / 5; i++) {
+            tape(run, x, o, "most 12;take 0;stick 0;");
+            due(run, 2, "manners", x.manners(), o.manners());
+            tape(run, x, o, scoreText(false, bells, 20, 1 + upTo(3)));
+            due(run, 1, "score", x.score(), o.score());
+            due(run, 5, "part", x.part(), o.part());
+            tape(run, x, o, mannersText());
+            due(run, 2, "manners", x.manners(), o.manners());
+            for (int bell : o.used()) {
+                int r = upTo(ringers);
+                due(run, 6, "give " + bell + " " + r, x.give(bell, r), o.give(bell, r));
+            }
+            for (int r = 0; r < ringers; r++) {
+                due(run, 9, "help " + r, x.help(r), o.help(r));
+                due(run, 20, "helped(0)", x.helped(0), o.helped(0));
+                due(run, 20, "helped(1)", x.helped(1), o.helped(1));
+                due(run, 7, "load " + r, x.load(r), o.load(r));
+                if (upTo(4) == 0) {
+                    due(run, 8, "cover " + r, x.cover(r), o.cover(r));
+                }
+            }
+        }
+    }
+
     public static void main(String[] args) {
         int runs = args.length > 0 ? Integer.parseInt(args[0]) : RUNS;
         for (int i = 0; i < runs; i++) {
             run(i);
+            helpRun(i);
         }
         System.out.println("answers that tell something, by call: " + java.util.Arrays.toString(ANSWERED));
         System.out.println(wrong == 0 ? "all answers are as due" : wrong + " answers are not as due");

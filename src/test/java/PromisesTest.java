@@ -148,6 +148,15 @@ public final class PromisesTest {
             }
         }
         due("with a leading zero", score(x, "at 007 007;"), 1);
+        due("least and greatest", score(x, "at 000 000 for 1 47 for 016;"), 2);
+        due("length", x.stroke(1, 2), 16);
+        due("in any order", score(x, "at 5 9 for 2 7 stick 8 shake 1;at 5 3 for 4;"), 5);
+        int[][] sorted = {{1, 1, 0}, {3, 4, 0}, {7, 1, 1}, {8, 1, 2}, {9, 2, 0}};
+        for (int k = 0; k < sorted.length; k++) {
+            for (int what = 1; what < 4; what++) {
+                due("stroke(" + k + ", " + what + ")", x.stroke(k, what), sorted[k][what - 1]);
+            }
+        }
         due("160", score(x, many(160)), 160);
         due("fault", score(x, many(161)), -1);
         due("the one before stays", x.count(0), 160);
@@ -249,7 +258,11 @@ public final class PromisesTest {
         scoreFault("at 1 2 for 2 for 2;", 1, 13);
         scoreFault("at 1 2 stick for 2;", 1, 13);
         scoreFault("at 1 2 stick shake;", 1, 13);
+        scoreFault("at 1 2 shake stick;", 1, 13);
+        scoreFault("at 1 2 shake for 2;", 1, 13);
         scoreFault("at 1 2 ring;", 1, 7);
+        scoreFault("at 1 2 stickz;", 1, 7);
+        scoreFault("at 1 2 stickaa;", 1, 7);
         scoreFault("at 1 2 sticks;", 1, 7);
         scoreFault("at 1 2 stic;", 1, 7);
         scoreFault("at 1 2 stickstick;", 1, 7);
@@ -636,6 +649,12 @@ public final class PromisesTest {
         due("ahead", z.part(), 1);
         due("parting stays", partedAfterDamp(z), 0);
         due("weighed anew", z.part(), 1);
+        manners(y, "take 0;");
+        score(y, "at 0 1 for 4 5 for 4;at 1 2;at 2 7;");
+        y.ringers(1);
+        due("ahead", y.part(), -1);
+        y.damp();
+        due("weighed anew", y.part(), 2);
     }
 
     private static int partedAfterDamp(BellTable x) {
@@ -729,7 +748,8 @@ public final class PromisesTest {
         due("pass(500)", x.pass(500), 500);
         due("pass(500)", x.pass(500), -2);
         due("stays", x.count(6), 500);
-        due("pass(499)", x.pass(499), 999);
+        due("pass(1)", x.pass(1), 501);
+        due("pass(498)", x.pass(498), 999);
         due("pass(1)", x.pass(1), -2);
     }
 
@@ -817,7 +837,21 @@ public final class PromisesTest {
         due("below", x.keyed(0), -1);
         due("other day", x.key(10, 0), 0);
         due("not moved", x.keyed(0), 0);
+        farthest(32, 12);
+        farthest(8, -12);
         octaves();
+    }
+
+    /** A STROKE on BELL 20, and one BELL alone is there. */
+    private static void farthest(int bell, int k) {
+        BellTable x = withScore("at 0 20;");
+        for (int b = 0; b < 48; b++) {
+            if (b != bell) {
+                x.away(b, 0, 9);
+            }
+        }
+        due("moved by " + k, x.key(0, 0), 0);
+        due("k", x.keyed(0), k);
     }
 
     private static void octaves() {

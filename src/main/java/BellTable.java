@@ -1279,8 +1279,12 @@ public final class BellTable {
         int seek(int r, int below, int above) {
             long own = ranges.bellsOf(r);
             deft.weighWithout(own, without);
-            weighNeighbour(below, own, byBelow);
-            weighNeighbour(above, own, byAbove);
+            if (below != NONE) {
+                deft.weighWith(ranges.bellsOf(below), own, byBelow);
+            }
+            if (above != NONE) {
+                deft.weighWith(ranges.bellsOf(above), own, byAbove);
+            }
             least = NEVER;
             for (int k = 0; k < score.size; k++) {
                 if (score.isOn(own, k)) {
@@ -1289,12 +1293,6 @@ public final class BellTable {
                 }
             }
             return least;
-        }
-
-        private void weighNeighbour(int neighbour, long own, int[] takes) {
-            if (neighbour != NONE) {
-                deft.weighWith(ranges.bellsOf(neighbour), own, takes);
-            }
         }
 
         private void keepIfLess(int k, int neighbour, int takes) {

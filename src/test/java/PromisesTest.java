@@ -323,6 +323,8 @@ public final class PromisesTest {
                 due("stroke(" + k + ", " + what + ")", x.stroke(k, what), rows[k][what]);
             }
         }
+        due("bell 0 rung again", withScore("at 0 0 for 9;at 2 0;").stroke(0, 4), 2);
+        due("bell 47 rung again", withScore("at 0 47 for 9;at 2 47;").stroke(0, 4), 2);
         due("stroke(3, 0)", x.stroke(3, 0), -1);
         due("stroke(-1, 0)", x.stroke(-1, 0), -1);
         due("stroke(0, 5)", x.stroke(0, 5), -1);
@@ -393,6 +395,38 @@ public final class PromisesTest {
         manners(y, "take 0;stick 0;");
         score(y, "at 0 1 2;at 1 3 4;");
         due("take 0", y.hands(30), 2);
+        atMost();
+    }
+
+    /** As many STROKES as there can be, all with one RINGER. */
+    private static void atMost() {
+        StringBuilder both = new StringBuilder();
+        StringBuilder one = new StringBuilder();
+        for (int beat = 0; beat < 159; beat++) {
+            both.append(beat < 80 ? "at" + beat + " 0 1;" : "");
+            one.append("at" + beat + (beat == 80 ? " 0 1;" : " 0;"));
+        }
+        BellTable x = withScore(both.toString());
+        due("160", x.count(0), 160);
+        due("hands", x.hands(3), 0);
+        due("hand", x.hand(158), 0);
+        due("hand", x.hand(159), 1);
+        BellTable y = withScore(one.toString());
+        due("160", y.count(0), 160);
+        due("hands", y.hands(3), 0);
+        y.part();
+        due("one each", y.give(0, 3), 3);
+        y.give(1, 3);
+        due("load", y.load(3), 0);
+        due("help", y.help(3), 0);
+        due("helped", y.helped(0), 0);
+        y.give(1, 2);
+        due("help with one of one", y.help(2), 0);
+        due("helped", y.helped(0), 81);
+        due("helped", y.helped(1), 1);
+        y.absent(1, true);
+        due("help into a row of 159", y.help(2), 0);
+        due("helped", y.helped(1), 3);
     }
 
     private static void hand() {
@@ -732,6 +766,13 @@ public final class PromisesTest {
         due("no such ringer", x.blame(-1), -2);
         x.give(14, 0);
         due("as it is now", x.blame(0), 6);
+        BellTable y = withScore("at 0 0;at 5 47;");
+        y.part();
+        heard(y, "at 0 0;at 5 47;at 9 0 47;");
+        due("more on bell 0", y.blame(2), 3);
+        due("more on bell 47", y.blame(3), 3);
+        heard(y, "at 0 0;at 5 47;");
+        due("no more", y.blame(2) + y.blame(3), 0);
         x.ringers(4);
         due("no parting", x.blame(0), -4);
         x.part();

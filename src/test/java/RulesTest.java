@@ -92,6 +92,8 @@ public final class RulesTest {
             due(c.getName() + " has at most twenty fields", fields <= 20, true);
             for (Method m : c.getDeclaredMethods()) {
                 due(m + " has at most seven parameters", m.getParameterCount() <= 7, true);
+                boolean open = FACE.stream().anyMatch(f -> f.startsWith(m.getName() + "("));
+                due(m + " bears a public name", open, false);
             }
         }
     }

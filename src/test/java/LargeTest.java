@@ -1,4 +1,3 @@
-import java.nio.charset.StandardCharsets;
 import java.util.ArrayList;
 import java.util.HashMap;
 import java.util.List;
@@ -32,20 +31,6 @@ public final class LargeTest {
 
     private static int upTo(int n) {
         return random.nextInt(n);
-    }
-
-    private static void tape(BellTable x, String text) {
-        byte[] bytes = text.getBytes(StandardCharsets.ISO_8859_1);
-        x.end(0);
-        for (int i = 0; i < bytes.length; i += 20) {
-            int[] five = new int[5];
-            for (int j = 0; j < 20; j++) {
-                int b = i + j < bytes.length ? bytes[i + j] & 255 : 0;
-                five[j / 4] = five[j / 4] << 8 | b;
-            }
-            x.feed(five[0], five[1], five[2], five[3], five[4]);
-        }
-        x.end(bytes.length);
     }
 
     /** As many STROKES as the tape and the bound let in. */
@@ -367,7 +352,7 @@ public final class LargeTest {
                 least[k][h] = h < m ? Math.min(best, 3 + least[k][h + 1]) : best;
             }
         }
-        tape(x, text(told, true));
+        Texts.tape(x, text(told, true));
         due(run, "heard", x.heard(), least[0][0]);
         int more = 0;
         int h = 0;
@@ -404,10 +389,10 @@ public final class LargeTest {
         int low = upTo(49 - bells);
         List<Stroke> score = fitting(strokes(bells, low, 1 + upTo(7), 1 + upTo(4)), false);
         BellTable x = new BellTable();
-        tape(x, text(score, false));
+        Texts.tape(x, text(score, false));
         due(run, "score", x.score(), score.size());
         int[] rules = {upTo(3), 1 + upTo(12), upTo(2) == 0 ? 47 : upTo(48), upTo(3)};
-        tape(x, "take" + rules[0] + ";most" + rules[1] + ";reach" + rules[2] + ";stick" + rules[3] + ";");
+        Texts.tape(x, "take" + rules[0] + ";most" + rules[1] + ";reach" + rules[2] + ";stick" + rules[3] + ";");
         due(run, "manners", x.manners(), 4);
         for (int i = 0; i < 3; i++) {
             checkHands(run, x, rules, score);
@@ -470,7 +455,7 @@ public final class LargeTest {
             if (upTo(25) == 0) {
                 int bells = 1 + upTo(48);
                 List<Stroke> score = fitting(strokes(bells, upTo(49 - bells), 1 + upTo(7), 1 + upTo(4)), false);
-                tape(x, text(score, false));
+                Texts.tape(x, text(score, false));
             } else if (upTo(25) == 0) {
                 for (int n = upTo(61); n > 0; n--) {
                     x.feed(random.nextInt(), wildInt(), wildInt(), wildInt(), random.nextInt());

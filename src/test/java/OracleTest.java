@@ -1,4 +1,3 @@
-import java.nio.charset.StandardCharsets;
 import java.util.ArrayList;
 import java.util.List;
 import java.util.Random;
@@ -808,14 +807,9 @@ public final class OracleTest {
     }
 
     private static void tape(int run, BellTable x, Oracle o, String text) {
-        byte[] bytes = text.getBytes(StandardCharsets.ISO_8859_1);
         int start = o.tape.length();
-        for (int i = 0; i < bytes.length; i += 20) {
-            int[] five = new int[5];
-            for (int j = 0; j < 20; j++) {
-                int b = i + j < bytes.length ? bytes[i + j] & 255 : 0;
-                five[j / 4] = five[j / 4] << 8 | b;
-            }
+        for (int i = 0; i < text.length(); i += 20) {
+            int[] five = Texts.fiveFrom(text, i);
             int want = start + i + 20 > 1200 ? -3 : start + i + 20;
             due(run, 0, "feed", x.feed(five[0], five[1], five[2], five[3], five[4]), want);
             if (want == -3) {

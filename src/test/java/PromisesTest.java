@@ -1,5 +1,3 @@
-import java.nio.charset.StandardCharsets;
-
 /** Each promise by its number: ordinary inputs, the edges that the document names, wrong inputs. */
 public final class PromisesTest {
     private static int wrong = 0;
@@ -12,46 +10,15 @@ public final class PromisesTest {
         }
     }
 
-    /** Puts a text on the tape as feed() and end() do it. */
-    private static void tape(BellTable x, String text) {
-        byte[] bytes = text.getBytes(StandardCharsets.ISO_8859_1);
-        x.end(0);
-        for (int i = 0; i < bytes.length; i += 20) {
-            int[] five = new int[5];
-            for (int j = 0; j < 20; j++) {
-                int b = i + j < bytes.length ? bytes[i + j] & 255 : 0;
-                five[j / 4] = five[j / 4] << 8 | b;
-            }
-            x.feed(five[0], five[1], five[2], five[3], five[4]);
-        }
-        due("end", x.end(bytes.length), bytes.length);
-    }
-
-    private static int score(BellTable x, String text) {
-        tape(x, text);
-        return x.score();
-    }
-
-    private static int manners(BellTable x, String text) {
-        tape(x, text);
-        return x.manners();
-    }
-
-    private static int heard(BellTable x, String text) {
-        tape(x, text);
-        return x.heard();
-    }
-
     private static BellTable withScore(String text) {
         BellTable x = new BellTable();
-        tape(x, text);
-        x.score();
+        Texts.score(x, text);
         return x;
     }
 
     private static void scoreFault(String text, int kind, int place) {
         BellTable x = new BellTable();
-        due("score " + text, score(x, text), -1);
+        due("score " + text, Texts.score(x, text), -1);
         due("kind of " + text, x.fault(0), kind);
         due("place of " + text, x.fault(1), place);
         due("tape is empty", x.count(8), 0);
@@ -59,7 +26,7 @@ public final class PromisesTest {
 
     private static void mannersFault(String text, int kind, int place) {
         BellTable x = new BellTable();
-        due("manners " + text, manners(x, text), -1);
+        due("manners " + text, Texts.manners(x, text), -1);
         due("kind of " + text, x.fault(0), kind);
         due("place of " + text, x.fault(1), place);
         due("tape is empty", x.count(8), 0);
@@ -67,22 +34,10 @@ public final class PromisesTest {
 
     private static void heardFault(String text, int kind, int place) {
         BellTable x = new BellTable();
-        due("heard " + text, heard(x, text), -1);
+        due("heard " + text, Texts.heard(x, text), -1);
         due("kind of " + text, x.fault(0), kind);
         due("place of " + text, x.fault(1), place);
         due("tape is empty", x.count(8), 0);
-    }
-
-    /** So many STROKES, 40 a beat, from beat 0 on. */
-    private static String many(int n) {
-        StringBuilder s = new StringBuilder();
-        for (int i = 0; i < n; i++) {
-            if (i % 40 == 0) {
-                s.append(i == 0 ? "at " : ";at ").append(i / 40);
-            }
-            s.append(' ').append(i % 40);
-        }
-        return s.append(";").toString();
     }
 
     private static void newObject() {
@@ -137,9 +92,9 @@ public final class PromisesTest {
     private static void score() {
         promise = 4;
         BellTable x = new BellTable();
-        due("empty", score(x, ""), 0);
-        due("blanks", score(x, " \n \n"), 0);
-        due("tight", score(x, "at0 3for2stick 1shake;at0 2;at999 47for16;"), 4);
+        due("empty", Texts.score(x, ""), 0);
+        due("blanks", Texts.score(x, " \n \n"), 0);
+        due("tight", Texts.score(x, "at0 3for2stick 1shake;at0 2;at999 47for16;"), 4);
         due("tape is empty", x.count(8), 0);
         int[][] rows = {{0, 1, 1, 2}, {0, 2, 1, 0}, {0, 3, 2, 1}, {999, 47, 16, 0}};
         for (int k = 0; k < rows.length; k++) {
@@ -147,18 +102,18 @@ public final class PromisesTest {
                 due("stroke(" + k + ", " + what + ")", x.stroke(k, what), rows[k][what]);
             }
         }
-        due("with a leading zero", score(x, "at 007 007;"), 1);
-        due("least and greatest", score(x, "at 000 000 for 1 47 for 016;"), 2);
+        due("with a leading zero", Texts.score(x, "at 007 007;"), 1);
+        due("least and greatest", Texts.score(x, "at 000 000 for 1 47 for 016;"), 2);
         due("length", x.stroke(1, 2), 16);
-        due("in any order", score(x, "at 5 9 for 2 7 stick 8 shake 1;at 5 3 for 4;"), 5);
+        due("in any order", Texts.score(x, "at 5 9 for 2 7 stick 8 shake 1;at 5 3 for 4;"), 5);
         int[][] sorted = {{1, 1, 0}, {3, 4, 0}, {7, 1, 1}, {8, 1, 2}, {9, 2, 0}};
         for (int k = 0; k < sorted.length; k++) {
             for (int what = 1; what < 4; what++) {
                 due("stroke(" + k + ", " + what + ")", x.stroke(k, what), sorted[k][what - 1]);
             }
         }
-        due("160", score(x, many(160)), 160);
-        due("fault", score(x, many(161)), -1);
+        due("160", Texts.score(x, Texts.many(160)), 160);
+        due("fault", Texts.score(x, Texts.many(161)), -1);
         due("the one before stays", x.count(0), 160);
         forgets();
     }
@@ -168,14 +123,14 @@ public final class PromisesTest {
         x.part();
         x.hands(2);
         x.help(3);
-        heard(x, "at 0 1;");
+        Texts.heard(x, "at 0 1;");
         x.key(0, 0);
         due("parting", x.count(4), 1);
-        score(x, "at 0 1");
+        Texts.score(x, "at 0 1");
         due("parting stays with a fault", x.count(4), 1);
         due("hand stays with a fault", x.hand(0), 0);
         due("heard stays with a fault", x.more(), 0);
-        score(x, "at 0 1;at 5 2;");
+        Texts.score(x, "at 0 1;at 5 2;");
         due("parting", x.count(4), 0);
         due("hand", x.hand(0), -1);
         due("helped", x.helped(0), -1);
@@ -187,20 +142,20 @@ public final class PromisesTest {
     private static void manners() {
         promise = 5;
         BellTable x = new BellTable();
-        due("all", manners(x, "stick 9;reach 47;most 12;take 0;"), 4);
+        due("all", Texts.manners(x, "stick 9;reach 47;most 12;take 0;"), 4);
         int[] told = {0, 12, 47, 9};
         for (int what = 0; what < 4; what++) {
             due("rule(" + what + ")", x.rule(what), told[what]);
         }
-        due("fault", manners(x, "take 3;reach 48;"), -1);
+        due("fault", Texts.manners(x, "take 3;reach 48;"), -1);
         due("they stay", x.rule(0), 0);
         due("tape is empty", x.count(8), 0);
-        due("one", manners(x, "take 5;"), 1);
+        due("one", Texts.manners(x, "take 5;"), 1);
         int[] rest = {5, 4, 12, 1};
         for (int what = 0; what < 4; what++) {
             due("as at first but one: " + what, x.rule(what), rest[what]);
         }
-        due("none", manners(x, ""), 0);
+        due("none", Texts.manners(x, ""), 0);
         due("as at first", x.rule(0), 1);
         mannersFault("take;", 1, 4);
         mannersFault("take 1", 1, 6);
@@ -219,7 +174,7 @@ public final class PromisesTest {
     private static int partingAfterManners() {
         BellTable x = withScore("at 0 1;");
         x.part();
-        manners(x, "most 1;");
+        Texts.manners(x, "most 1;");
         return x.count(4);
     }
 
@@ -230,16 +185,16 @@ public final class PromisesTest {
         due("ahead of any", x.fault(1), -1);
         due("other", x.fault(2), -1);
         due("other", x.fault(-1), -1);
-        score(x, "at 0 48;");
+        Texts.score(x, "at 0 48;");
         due("kind", x.fault(0), 2);
         due("place", x.fault(1), 5);
-        manners(x, "");
+        Texts.manners(x, "");
         due("without", x.fault(0), 0);
         due("without", x.fault(1), -1);
-        heard(x, "at 0 1 1;");
+        Texts.heard(x, "at 0 1 1;");
         due("of heard", x.fault(0), 3);
         due("of heard", x.fault(1), 7);
-        score(x, "");
+        Texts.score(x, "");
         due("without", x.fault(0), 0);
         scoreFaults();
         heardFaults();
@@ -284,7 +239,7 @@ public final class PromisesTest {
         scoreFault("at 5 2;at 4 3;", 2, 10);
         scoreFault("at 5 2 3 2;", 3, 9);
         scoreFault("at 5 2 3;at 5 4 3;", 3, 16);
-        String full = many(160);
+        String full = Texts.many(160);
         scoreFault(full + "at 4 3;", 4, full.length() + 5);
         scoreFault(full + "at 4 48;", 2, full.length() + 5);
         scoreFault(full + "at 3 39;", 3, full.length() + 5);
@@ -298,7 +253,7 @@ public final class PromisesTest {
         heardFault("at 1 48;", 2, 5);
         heardFault("at 1 2;at 0 2;", 2, 10);
         heardFault("at 1 2;at 1 2;", 3, 12);
-        String full = many(160);
+        String full = Texts.many(160);
         heardFault(full + "at 4 3 2;", 4, full.length() + 5);
     }
 
@@ -392,8 +347,8 @@ public final class PromisesTest {
         due("the same bell with a stick", withScore("at 0 1;at 3 1 stick;").hands(2), 1);
         due("the other hand too", withScore("at 0 1;at 1 1 stick;at 2 2 stick;").hands(6), -1);
         BellTable y = new BellTable();
-        manners(y, "take 0;stick 0;");
-        score(y, "at 0 1 2;at 1 3 4;");
+        Texts.manners(y, "take 0;stick 0;");
+        Texts.score(y, "at 0 1 2;at 1 3 4;");
         due("take 0", y.hands(30), 2);
         atMost();
     }
@@ -452,12 +407,12 @@ public final class PromisesTest {
         x.damp();
         due("a damp came", x.hand(0), -1);
         x.hands(14);
-        manners(x, "take 1;");
+        Texts.manners(x, "take 1;");
         due("manners came", x.hand(0), -1);
         x.hands(14);
-        score(x, "at 0 1;");
+        Texts.score(x, "at 0 1;");
         due("a score came", x.hand(0), -1);
-        score(x, "at 0 1;at 0 2 3;at 4 4;");
+        Texts.score(x, "at 0 1;at 0 2 3;at 4 4;");
         x.hands(2);
         due("it can't be", x.hands(14), -1);
         due("the latest that told stays", x.hand(0), 0);
@@ -485,7 +440,7 @@ public final class PromisesTest {
         x = withScore("at 0 1;at 5 13;");
         due("reach is enough", x.part(), 0);
         due("the last one has both", x.parted(1), 3);
-        manners(x, "most 1;");
+        Texts.manners(x, "most 1;");
         due("most parts them", x.part(), 0);
         due("bell 1", x.parted(1), 2);
         x = withScore("at 0 0;at 9 1;at 18 2;at 27 3;at 36 4;");
@@ -547,7 +502,7 @@ public final class PromisesTest {
         x.give(3, 0);
         due("load(0)", x.load(0), 1);
         due("no such ringer", x.load(-1), -2);
-        manners(x, "take 6;");
+        Texts.manners(x, "take 6;");
         due("it can't be", x.load(0), -1);
         x.absent(0, true);
         due("of one who is absent", x.load(0), -1);
@@ -627,7 +582,7 @@ public final class PromisesTest {
         due("the latest that told stays", x.helped(1), 2);
         x.ringers(2);
         due("stays", x.helped(1), 2);
-        score(x, "");
+        Texts.score(x, "");
         due("a score came", x.helped(0), -1);
         due("a score came", x.helped(1), -1);
     }
@@ -683,8 +638,8 @@ public final class PromisesTest {
         due("ahead", z.part(), 1);
         due("parting stays", partedAfterDamp(z), 0);
         due("weighed anew", z.part(), 1);
-        manners(y, "take 0;");
-        score(y, "at 0 1 for 4 5 for 4;at 1 2;at 2 7;");
+        Texts.manners(y, "take 0;");
+        Texts.score(y, "at 0 1 for 4 5 for 4;at 1 2;at 2 7;");
         y.ringers(1);
         due("ahead", y.part(), -1);
         y.damp();
@@ -699,27 +654,27 @@ public final class PromisesTest {
     private static void heard() {
         promise = 23;
         BellTable x = withScore("at 0 1;at 2 2;at 4 3;");
-        due("as told", heard(x, "at 0 1;at 2 2;at 4 3;"), 0);
+        due("as told", Texts.heard(x, "at 0 1;at 2 2;at 4 3;"), 0);
         due("tape is empty", x.count(8), 0);
-        due("late and early", heard(x, "at 1 1;at 2 2 3;"), 1 + 0 + 2);
-        due("too late", heard(x, "at 2 2;at 3 1;at 4 3;"), 3 + 0 + 3);
-        due("another bell", heard(x, "at 0 9;at 2 2;at 4 3;"), 2);
-        due("none", heard(x, ""), 9);
-        due("fault", heard(x, "at 0 1 2 stick;"), -1);
+        due("late and early", Texts.heard(x, "at 1 1;at 2 2 3;"), 1 + 0 + 2);
+        due("too late", Texts.heard(x, "at 2 2;at 3 1;at 4 3;"), 3 + 0 + 3);
+        due("another bell", Texts.heard(x, "at 0 9;at 2 2;at 4 3;"), 2);
+        due("none", Texts.heard(x, ""), 9);
+        due("fault", Texts.heard(x, "at 0 1 2 stick;"), -1);
         due("all stays", x.laid(0, 0), 0);
         due("tape is empty", x.count(8), 0);
-        due("no score", heard(new BellTable(), "at 0 1 2;"), 6);
-        due("pairs go forth", heard(withScore("at 0 1;at 1 2;"), "at 0 2;at 1 1;"), 4);
-        due("many", heard(withScore(many(160)), many(160)), 0);
-        due("many", heard(withScore(many(160)), ""), 480);
-        due("many", heard(withScore(""), many(160)), 480);
+        due("no score", Texts.heard(new BellTable(), "at 0 1 2;"), 6);
+        due("pairs go forth", Texts.heard(withScore("at 0 1;at 1 2;"), "at 0 2;at 1 1;"), 4);
+        due("many", Texts.heard(withScore(Texts.many(160)), Texts.many(160)), 0);
+        due("many", Texts.heard(withScore(Texts.many(160)), ""), 480);
+        due("many", Texts.heard(withScore(""), Texts.many(160)), 480);
     }
 
     private static void laid() {
         promise = 24;
         BellTable x = withScore("at 2 1;at 4 2;at 6 3;at 9 4;");
         due("ahead of any", x.laid(0, 0), -9);
-        due("heard", heard(x, "at 1 1;at 4 7;at 8 3;"), 1 + 2 + 2 + 3);
+        due("heard", Texts.heard(x, "at 1 1;at 4 7;at 8 3;"), 1 + 2 + 2 + 3);
         int[][] rows = {{1, -1, 1}, {1, 0, 7}, {1, 2, 3}, {0, 0, -1}};
         for (int k = 0; k < rows.length; k++) {
             for (int what = 0; what < 3; what++) {
@@ -731,7 +686,7 @@ public final class PromisesTest {
         due("laid(0, 3)", x.laid(0, 3), -9);
         due("laid(0, -1)", x.laid(0, -1), -9);
         BellTable y = withScore("at 0 1;at 2 1;");
-        due("one for both", heard(y, "at 1 1;"), 4);
+        due("one for both", Texts.heard(y, "at 1 1;"), 4);
         due("a pair first", y.laid(0, 0), 1);
         due("then missed", y.laid(1, 0), 0);
     }
@@ -740,13 +695,13 @@ public final class PromisesTest {
         promise = 25;
         BellTable x = withScore("at 0 1;");
         due("ahead of any", x.more(), -1);
-        heard(x, "at 0 1 2;at 9 9;");
+        Texts.heard(x, "at 0 1 2;at 9 9;");
         due("more", x.more(), 2);
-        heard(x, "at 0 1 1;");
+        Texts.heard(x, "at 0 1 1;");
         due("stays with a fault", x.more(), 2);
-        heard(x, "at 0 1;");
+        Texts.heard(x, "at 0 1;");
         due("more", x.more(), 0);
-        score(x, "at 0 1;");
+        Texts.score(x, "at 0 1;");
         due("a score came", x.more(), -1);
     }
 
@@ -757,7 +712,7 @@ public final class PromisesTest {
         due("no such ringer first", x.blame(4), -2);
         x.part();
         due("no heard", x.blame(0), -4);
-        due("heard", heard(x, "at 1 1;at 5 7;at 20 14;at 30 7;"), 1 + 2 + 3 + 3 + 3);
+        due("heard", Texts.heard(x, "at 1 1;at 5 7;at 20 14;at 30 7;"), 1 + 2 + 3 + 3 + 3);
         due("bells", x.parted(1), 2);
         due("bells", x.parted(2), 3);
         due("blame(2)", x.blame(2), 1);
@@ -768,10 +723,10 @@ public final class PromisesTest {
         due("as it is now", x.blame(0), 6);
         BellTable y = withScore("at 0 0;at 5 47;");
         y.part();
-        heard(y, "at 0 0;at 5 47;at 9 0 47;");
+        Texts.heard(y, "at 0 0;at 5 47;at 9 0 47;");
         due("more on bell 0", y.blame(2), 3);
         due("more on bell 47", y.blame(3), 3);
-        heard(y, "at 0 0;at 5 47;");
+        Texts.heard(y, "at 0 0;at 5 47;");
         due("no more", y.blame(2) + y.blame(3), 0);
         x.ringers(4);
         due("no parting", x.blame(0), -4);
@@ -920,7 +875,7 @@ public final class PromisesTest {
         }
         due("moved", y.key(0, 0), 0);
         due("k", y.keyed(0), -11);
-        due("12 below that isn't there", score(y, "at 0 35 47;"), 2);
+        due("12 below that isn't there", Texts.score(y, "at 0 35 47;"), 2);
         y.key(0, 0);
         due("k", y.keyed(0), 1);
         due("12 below one that is none", y.keyed(2), 1);
@@ -941,7 +896,7 @@ public final class PromisesTest {
         x.key(0, 0);
         x.key(0, 1000);
         due("of the latest that was not RANGE", x.keyed(0), 1);
-        score(x, "at 0 1;");
+        Texts.score(x, "at 0 1;");
         due("a score came", x.keyed(0), -99);
         due("a score came", x.keyed(1), -99);
     }

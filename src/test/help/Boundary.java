@@ -1,10 +1,11 @@
 import java.io.IOException;
 import java.nio.file.Files;
 import java.nio.file.Path;
+import java.util.TreeSet;
 
 /**
  * What the tests of boundary cases share. Each test stands under a sentence of the document, which is quoted and
- * looked up there, so that what fails says which sentence is broken.
+ * looked up in its section there, so that what fails says which sentence is broken.
  */
 abstract class Boundary {
     static final int NONE = -1;
@@ -17,22 +18,25 @@ abstract class Boundary {
     static final int TWICE = 3;
     static final int ROOM = 4;
 
-    private static final Path DOCUMENT = Path.of("../shared/DOC.md");
+    private static final String DOCUMENT = folded(read(Path.of("../shared/DOC.md")));
 
-    private static String document = "";
+    private static final TreeSet<Integer> PROMISES = new TreeSet<>();
+
     private static String words = "";
     private static int sentences = 0;
     private static int answersOfSentence = 0;
     private static int wrong = 0;
 
-    /** All that is due behind this call, up to the next one, tests these words. */
-    static void sentence(String quoted) {
-        closeSentence();
-        words = quoted;
-        sentences++;
-        if (!document().contains(folded(quoted))) {
-            tellWrong("is not in the document");
-        }
+    /** All that is due behind this call, up to the next sentence, tests these words, which stand ahead of promise 1. */
+    static void terms(String quoted) {
+        openSentence(quoted, DOCUMENT.substring(0, DOCUMENT.indexOf("## Promise 1:")));
+    }
+
+    /** All that is due behind this call, up to the next sentence, tests these words of that promise. */
+    static void promise(int number, String quoted) {
+        String rest = DOCUMENT.substring(DOCUMENT.indexOf("## Promise " + number + ":"));
+        openSentence(quoted, rest.substring(0, rest.indexOf("## ", 1)));
+        PROMISES.add(number);
     }
 
     static void due(String call, long got, long want) {
@@ -78,19 +82,34 @@ abstract class Boundary {
         return x;
     }
 
-    static void finish() {
+    /** Ends with exit code 1 if an answer was wrong, or if one of these promises has no sentence here. */
+    static void finish(int firstPromise, int lastPromise) {
         closeSentence();
+        for (int number = firstPromise; number <= lastPromise; number++) {
+            if (!PROMISES.contains(number)) {
+                tellWrong("and no sentence of promise " + number);
+            }
+        }
         System.out.println(sentences + " sentences, " + (wrong == 0 ? "all as due" : wrong + " answers not as due"));
         if (wrong != 0) {
             System.exit(1);
         }
-        sentences = 0;
+    }
+
+    private static void openSentence(String quoted, String section) {
+        closeSentence();
+        words = quoted;
+        sentences++;
+        if (!section.contains(folded(quoted))) {
+            tellWrong("is not in the document, or not there");
+        }
     }
 
     private static void closeSentence() {
-        if (sentences > 0 && answersOfSentence == 0) {
+        if (!words.isEmpty() && answersOfSentence == 0) {
             tellWrong("has no test");
         }
+        words = "";
         answersOfSentence = 0;
     }
 
@@ -99,15 +118,12 @@ abstract class Boundary {
         System.out.println("\"" + words + "\": " + what);
     }
 
-    private static String document() {
-        if (document.isEmpty()) {
-            try {
-                document = folded(Files.readString(DOCUMENT));
-            } catch (IOException e) {
-                throw new IllegalStateException("no document at " + DOCUMENT, e);
-            }
+    private static String read(Path path) {
+        try {
+            return Files.readString(path);
+        } catch (IOException e) {
+            throw new IllegalStateException("no document at " + path, e);
         }
-        return document;
     }
 
     private static String folded(String text) {

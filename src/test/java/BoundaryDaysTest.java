@@ -41,7 +41,7 @@ public final class BoundaryDaysTest extends Boundary {
     }
 
     private static void clock() {
-        sentence("DAYS 0 .. 999; the CLOCK's is 0 at first.");
+        terms("DAYS 0 .. 999; the CLOCK's is 0 at first.");
         BellTable x = new BellTable();
         due("at first", x.count(6), 0);
         there(x, 0, 0, 0, 1);
@@ -49,7 +49,7 @@ public final class BoundaryDaysTest extends Boundary {
         there(x, 0, 1000, 0, RANGE);
         there(x, 0, -1, 0, RANGE);
 
-        sentence("So many days (1 .. 500) pass: the CLOCK's; RANGE, also beyond 999.");
+        promise(27, "So many days (1 .. 500) pass: the CLOCK's; RANGE, also beyond 999.");
         for (int n : outside(1, 500)) {
             due("pass(" + n + ")", x.pass(n), RANGE);
         }
@@ -65,7 +65,7 @@ public final class BoundaryDaysTest extends Boundary {
     }
 
     private static void away() {
-        sentence("AWAY is told (at most 60): a BELL from a day to a day, KNOWN from the CLOCK's on;");
+        terms("AWAY is told (at most 60): a BELL from a day to a day, KNOWN from the CLOCK's on;");
         BellTable x = new BellTable();
         x.pass(10);
         due("away", x.away(3, 20, 22), 0);
@@ -83,8 +83,8 @@ public final class BoundaryDaysTest extends Boundary {
         there(x, 3, 0, 9, 1);
         there(x, 3, 1, 10, 1);
 
-        sentence("A BELL is told AWAY from a day to a day (0 .. 999, not ahead of the first one): its number; RANGE; "
-            + "FULL.");
+        promise(28, "A BELL is told AWAY from a day to a day (0 .. 999, not ahead of the first one): its number; "
+            + "RANGE; FULL.");
         BellTable y = new BellTable();
         for (int bell : outside(0, 47)) {
             due("bell " + bell, y.away(bell, 0, 0), RANGE);
@@ -114,7 +114,7 @@ public final class BoundaryDaysTest extends Boundary {
     }
 
     private static void back() {
-        sentence("BACK is told of such a one: from a day on it is there all the same, KNOWN likewise.");
+        terms("BACK is told of such a one: from a day on it is there all the same, KNOWN likewise.");
         BellTable x = new BellTable();
         x.pass(10);
         x.away(3, 20, 30);
@@ -127,7 +127,19 @@ public final class BoundaryDaysTest extends Boundary {
         there(x, 3, 25, 9, 1);
         there(x, 3, 25, 999, 1);
 
-        sentence("or each such has a BACK that is KNOWN, from a day not behind it.");
+        terms("if no AWAY that is KNOWN has the day,");
+        BellTable none = new BellTable();
+        there(none, 3, 20, 0, 1);
+        none.away(3, 0, 19);
+        none.away(3, 21, 999);
+        none.away(2, 0, 999);
+        there(none, 3, 20, 0, 1);
+        none.pass(1);
+        none.away(3, 20, 20);
+        there(none, 3, 20, 0, 1);
+        there(none, 3, 20, 1, 0);
+
+        terms("or each such has a BACK that is KNOWN, from a day not behind it.");
         BellTable y = new BellTable();
         y.away(3, 20, 30);
         y.away(3, 25, 40);
@@ -150,7 +162,7 @@ public final class BoundaryDaysTest extends Boundary {
         due("ahead of its first day", z.back(0, 0), 1);
         there(z, 3, 20, 0, 1);
 
-        sentence("BACK of such a one from a day on: 1; RANGE: no such one, day; STATE: it was told.");
+        promise(29, "BACK of such a one from a day on: 1; RANGE: no such one, day; STATE: it was told.");
         BellTable w = new BellTable();
         due("none was told", w.back(0, 0), RANGE);
         w.away(1, 0, 999);
@@ -172,7 +184,7 @@ public final class BoundaryDaysTest extends Boundary {
     }
 
     private static void thereRange() {
-        sentence("1 if a BELL is THERE on a day, as KNOWN on a day, else 0; RANGE.");
+        promise(30, "1 if a BELL is THERE on a day, as KNOWN on a day, else 0; RANGE.");
         BellTable x = new BellTable();
         there(x, 0, 0, 0, 1);
         there(x, 47, 999, 999, 1);
@@ -189,7 +201,7 @@ public final class BoundaryDaysTest extends Boundary {
     }
 
     private static void keys() {
-        sentence("a SCORE moved by k (-12 .. 12): each STROKE is on a BELL k above;");
+        terms("a SCORE moved by k (-12 .. 12): each STROKE is on a BELL k above;");
         keyIs(withBells("at 0 20;", 32), 0, 12, 0, 0);
         keyIs(withBells("at 0 20;", 8), 0, -12, 0, 0);
         keyIs(withBells("at 0 20;", 33), 1, 1, 0, 1);
@@ -200,7 +212,7 @@ public final class BoundaryDaysTest extends Boundary {
         keyIs(withBells("at 0 30;", 5), 3, 0, 1, 0);
         keyIs(withBells("at 0 20 21;at 1 20;", 25, 26), 0, 5, 0, 0);
 
-        sentence("if that is none or isn't THERE, on the one 12 above it, else 12 below it "
+        terms("if that is none or isn't THERE, on the one 12 above it, else 12 below it "
             + "(each 1 point, if it is one and is THERE)");
         keyIs(without("at 0 0 47;", 0, 12), 1, 1, 0, 1);
         keyIs(without("at 0 0 47;", 47, 35, 36), 1, -1, 0, 1);
@@ -209,13 +221,13 @@ public final class BoundaryDaysTest extends Boundary {
         keyIs(withBells("at 0 0 47;", 0, 35), 1, 0, 0, 1);
         keyIs(withBells("at 0 0 1 2;", 11, 0, 1), 1, -1, 0, 1);
 
-        sentence("else it is left out (3 points).");
+        terms("else it is left out (3 points).");
         keyIs(withBells("at 0 20;"), 3, 0, 1, 0);
         keyIs(withBells(Texts.many(160)), 480, 0, 160, 0);
         keyIs(withBells("at 0 0 24 47;", 0, 24), 3, 0, 1, 0);
         keyIs(withBells("at 0 1 2 3;", 1, 2), 3, 0, 1, 0);
 
-        sentence("The least points; then the least k without its sign; then that above 0.");
+        terms("The least points; then the least k without its sign; then that above 0.");
         keyIs(without("at 0 20;", 20), 0, 1, 0, 0);
         keyIs(without("at 0 20;", 20, 21), 0, -1, 0, 0);
         keyIs(without("at 0 20;", 20, 21, 19), 0, 2, 0, 0);
@@ -226,7 +238,7 @@ public final class BoundaryDaysTest extends Boundary {
     }
 
     private static void keyCalls() {
-        sentence("KEY for a day, as KNOWN on a day: its points; RANGE.");
+        promise(31, "KEY for a day, as KNOWN on a day: its points; RANGE.");
         BellTable x = withScore("at 0 20;");
         for (int day : outside(0, 999)) {
             due("key(" + day + ", 0)", x.key(day, 0), RANGE);
@@ -240,7 +252,8 @@ public final class BoundaryDaysTest extends Boundary {
         moveOn(x, 7, 4, 0);
         due("no score", new BellTable().key(999, 0), 0);
 
-        sentence("Of the latest key() that was not RANGE");
+        promise(32, "Of the latest key() that was not RANGE, what 0: k, 1: STROKES that are left out, "
+            + "2: those that are 12 above or below.");
         moveOn(x, 7, 5, 1);
         due("a day too far", x.key(1000, 5), RANGE);
         due("k", x.keyed(0), 1);
@@ -249,8 +262,9 @@ public final class BoundaryDaysTest extends Boundary {
         x.back(0, 7);
         due("as it was then", x.keyed(0), 1);
         moveOn(x, 7, 5, 0);
+        keyIs(withBells(Texts.many(160), 12, 24), 480 - 8 * 2 - 8 * 3, 0, 160 - 8 - 8, 8);
 
-        sentence("-99 for others, ahead of any, or if a score() came since.");
+        promise(32, "-99 for others, ahead of any, or if a score() came since.");
         for (int what : outside(0, 2)) {
             due("keyed(" + what + ")", x.keyed(what), -99);
         }
@@ -273,7 +287,18 @@ public final class BoundaryDaysTest extends Boundary {
     }
 
     private static void counts() {
-        sentence("3: of these ABSENT ones, 4: 1 if there is a PARTING, else 0, 5: RINGERS with a BELL by it (0)");
+        promise(33, "What 0: STROKES, 1: USED BELLS, 2: RINGERS");
+        BellTable z = withScore(Texts.many(160));
+        due("as many as there can be", z.count(0), 160);
+        due("each once", z.count(1), 40);
+        z.ringers(12);
+        due("as many as there can be", z.count(2), 12);
+        Texts.score(z, "");
+        due("no strokes", z.count(0), 0);
+        due("no bells", z.count(1), 0);
+        due("as many as told", z.count(2), 12);
+
+        promise(33, "3: of these ABSENT ones, 4: 1 if there is a PARTING, else 0, 5: RINGERS with a BELL by it (0)");
         BellTable x = withScore("at 0 1 2 3;");
         due("no parting", x.count(4), 0);
         due("none with a bell", x.count(5), 0);
@@ -294,7 +319,7 @@ public final class BoundaryDaysTest extends Boundary {
         due("a parting of no bells", withParting("", 4).count(4), 1);
         due("a parting of no bells", withParting("", 4).count(5), 0);
 
-        sentence("6: the CLOCK's day, 7: AWAY that were told, 8: bytes of THE TAPE.");
+        promise(33, "6: the CLOCK's day, 7: AWAY that were told, 8: bytes of THE TAPE.");
         BellTable y = new BellTable();
         y.pass(499);
         y.pass(500);
@@ -307,7 +332,7 @@ public final class BoundaryDaysTest extends Boundary {
         due("one, though it is back", y.count(7), 1);
         due("as many as there can be", y.count(8), 1200);
 
-        sentence("NONE for others.");
+        promise(33, "NONE for others.");
         for (int what : outside(0, 8)) {
             due("count(" + what + ")", y.count(what), NONE);
         }
@@ -321,6 +346,6 @@ public final class BoundaryDaysTest extends Boundary {
         keys();
         keyCalls();
         counts();
-        finish();
+        finish(27, 33);
     }
 }

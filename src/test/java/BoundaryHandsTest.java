@@ -40,29 +40,29 @@ public final class BoundaryHandsTest extends Boundary {
     }
 
     private static void holding() {
-        sentence("A hand HOLDS nothing at first;");
+        terms("A hand HOLDS nothing at first;");
         hands("at 0 1 2 stick;", "take 9;stick 9;", 6, 0);
         hands("at 0 1 for 16 shake 2 stick;", "take 9;stick 9;", 6, 0);
         hands("at 0 1;at 1 2 stick;", "take 9;stick 9;", 6, 0);
 
-        sentence("with a STROKE that is rung or shaken it HOLDS the BELL, with a stick a stick.");
+        terms("with a STROKE that is rung or shaken it HOLDS the BELL, with a stick a stick.");
         hands("at 0 1 2;at 1 1 2;", "take 9;stick 9;", 6, 0);
         hands("at 0 1 shake 2 shake;at 1 1 shake 2;", "take 9;stick 9;", 6, 0);
         hands("at 0 1 stick 2 stick;at 1 3 stick 4 stick;", "take 9;stick 9;", 30, 0);
         hands("at 0 1 stick;at 1 1;", "take 9;stick 9;", 2, 0);
         hands("at 0 1 stick 2 stick;at 1 1;", "take 9;stick 9;", 6, NONE);
 
-        sentence("the same BELL, both not with a stick: at least 1 beat later;");
+        terms("the same BELL, both not with a stick: at least 1 beat later;");
         hands("at 0 1 for 16;at 1 1 for 16;at 2 1 for 16 shake;", "take 9;stick 9;", 2, 0);
         hands("at 998 47 for 16;at 999 47;", "take 9;", 1L << 47, 0);
 
-        sentence("if that one was shaken, at least its LENGTH later.");
+        terms("if that one was shaken, at least its LENGTH later.");
         hands("at 0 1 shake;at 1 1;", "take 9;", 2, 0);
         hands("at 0 1 for 16 shake;at 16 1;", "take 9;", 2, 0);
         hands("at 0 1 for 16 shake;at 15 1;", "take 0;", 2, NONE);
         hands("at 0 1 for 16 shake;at 15 1 shake;", "take 0;", 2, NONE);
 
-        sentence("both with a stick: at least 1 beat later.");
+        terms("both with a stick: at least 1 beat later.");
         hands("at 0 1 for 16 stick 2 for 16 stick;at 1 1 stick 3 stick;", "take 9;stick 9;", 14, 0);
         hands("at 0 1 stick 2 stick 3 stick;", "take 0;stick 0;", 14, NONE);
         hands("at 0 1 stick 2 stick;", "take 9;stick 9;", 6, 0);
@@ -75,7 +75,7 @@ public final class BoundaryHandsTest extends Boundary {
     }
 
     private static void takes() {
-        sentence("a TAKE: at least take beats behind the end of that one (its beat and LENGTH; "
+        terms("a TAKE: at least take beats behind the end of that one (its beat and LENGTH; "
             + "with a stick its beat and 1)");
         justInTime("at 4 1 for 3 2 for 3;", "3", 7, "take 0;");
         justInTime("at 4 1 for 3 2 for 3;", "3", 8, "take 1;");
@@ -85,7 +85,7 @@ public final class BoundaryHandsTest extends Boundary {
         justInTime("at 4 1 for 9 stick 2 for 9 stick;", "3", 7, "take 2;stick 0;");
         justInTime("at 4 1 for 9 stick 2 for 9 stick;", "3", 5, "take 0;stick 0;");
 
-        sentence("and stick beats besides, if one of the two is with a stick.");
+        terms("and stick beats besides, if one of the two is with a stick.");
         justInTime("at 4 1 for 2 2 for 2;", "3 stick", 11, "take 1;stick 4;");
         justInTime("at 4 1 for 2 2 for 2;", "3 stick", 15, "take 0;stick 9;");
         justInTime("at 4 1 for 2 2 for 2;", "3 stick", 6, "take 0;stick 0;");
@@ -94,7 +94,7 @@ public final class BoundaryHandsTest extends Boundary {
         due("at first", withScore("at 0 1;at 3 1 stick;").hands(2), 1);
         due("at first, too early", withScore("at 0 1;at 2 1 stick;").hands(2), NONE);
 
-        sentence("A BELL that the other hand HOLDS can't be the one of the new STROKE (with a stick either).");
+        terms("A BELL that the other hand HOLDS can't be the one of the new STROKE (with a stick either).");
         hands("at 0 1 for 4 shake;at 3 1;", "take 0;stick 0;", 2, NONE);
         hands("at 0 1 for 4;at 3 1 stick;", "take 0;stick 0;", 2, NONE);
         hands("at 0 0 for 4;at 3 0 stick;", "take 0;stick 0;", 1, NONE);
@@ -104,7 +104,7 @@ public final class BoundaryHandsTest extends Boundary {
     }
 
     private static void rows() {
-        sentence("The fewest TAKES; then the least row of hands by STROKES.");
+        terms("The fewest TAKES; then the least row of hands by STROKES.");
         BellTable x = withScore("at 0 1;at 3 2;at 6 1;");
         due("none is fewest", x.hands(6), 0);
         handRow(x, 0, 1, 0);
@@ -118,7 +118,7 @@ public final class BoundaryHandsTest extends Boundary {
         due("the least goes not", w.hands(14), 1);
         handRow(w, 0, 1, 1);
 
-        sentence("(It can't be, if no row goes.) Of a set without STROKES: 0.");
+        terms("(It can't be, if no row goes.) Of a set without STROKES: 0.");
         due("three at once", withScore(THREE).hands(14), NONE);
         due("two of them", withScore(THREE).hands(10), 0);
         due("no bells", withScore(THREE).hands(0), 0);
@@ -130,7 +130,7 @@ public final class BoundaryHandsTest extends Boundary {
         due("no way", u.hands(7 << 5), NONE);
         due("no bells behind it", u.hands(1), 0);
 
-        sentence("one RINGER rings all STROKES on them, one by one as they stand, each with the hand 0 or 1.");
+        terms("one RINGER rings all STROKES on them, one by one as they stand, each with the hand 0 or 1.");
         BellTable all = withScore(TWO_BY_TWO);
         due("as many as there can be", all.count(0), 160);
         due("two by two", all.hands(3), 0);
@@ -141,7 +141,7 @@ public final class BoundaryHandsTest extends Boundary {
         handRow(all, NONE, 0, NONE, 0);
         due("the last one", all.hand(159), 0);
 
-        sentence("HANDS of a set of BELLS (bits, 0 .. 47): TAKES; NONE: it can't be; RANGE: another bit.");
+        promise(11, "HANDS of a set of BELLS (bits, 0 .. 47): TAKES; NONE: it can't be; RANGE: another bit.");
         BellTable v = withScore("at 0 0 47;at 9 46;");
         due("the least and the greatest bit", v.hands(1L << 47 | 1), 0);
         due("all bits", v.hands((1L << 48) - 1), 1);
@@ -153,7 +153,7 @@ public final class BoundaryHandsTest extends Boundary {
     }
 
     private static void tellingHands() {
-        sentence("The hand of STROKE k by the latest hands() that told TAKES");
+        promise(12, "The hand of STROKE k by the latest hands() that told TAKES");
         BellTable x = withScore("at 0 1 2 3;at 9 4;");
         due("takes", x.hands(22), 1);
         handRow(x, 0, 1, NONE, 0);
@@ -164,7 +164,7 @@ public final class BoundaryHandsTest extends Boundary {
         due("other bells", x.hands(8), 0);
         handRow(x, NONE, NONE, 0, NONE);
 
-        sentence("as long as no score(), manners() or damp() came;");
+        promise(12, "as long as no score(), manners() or damp() came;");
         x.part();
         x.load(0);
         x.help(0);
@@ -185,7 +185,7 @@ public final class BoundaryHandsTest extends Boundary {
         Texts.score(x, "at 0 1 2 3;at 9 4;");
         due("a score() came", x.hand(2), NONE);
 
-        sentence("NONE: none such, or it isn't of the set.");
+        promise(12, "NONE: none such, or it isn't of the set.");
         BellTable y = withScore("at 0 1;at 9 2;");
         due("ahead of any", y.hand(0), NONE);
         y.hands(2);
@@ -198,13 +198,21 @@ public final class BoundaryHandsTest extends Boundary {
     }
 
     private static void pieces() {
-        sentence("USED are the BELLS of the SCORE.");
+        terms("USED are the BELLS of the SCORE.");
         due("no score", new BellTable().count(1), 0);
         due("each once", withScore("at 0 0 47;at 1 0 stick;at 2 0 shake 47;").count(1), 2);
         BellTable all = withScore("at 0 " + firstBells(48) + ";");
         due("all", all.count(1), 48);
 
-        sentence("go in a row of whole pieces (some empty) to those RINGERS who aren't ABSENT, by number;");
+        terms("A PARTING gives each USED BELL a RINGER.");
+        BellTable full = withScore(oneByOne(48));
+        full.ringers(12);
+        due("all bells, all ringers", full.part(), 24);
+        for (int bell = 0; bell < 48; bell++) {
+            partedAs(full, bell, bell / 4);
+        }
+
+        terms("go in a row of whole pieces (some empty) to those RINGERS who aren't ABSENT, by number;");
         BellTable x = withScore("at 0 1 2 3 4;");
         due("some empty", x.part(), 0);
         partedAs(x, 1, 2, 2, 2, 3, 3, 4, 3);
@@ -219,21 +227,13 @@ public final class BoundaryHandsTest extends Boundary {
         due("to the last of twelve", y.part(), 0);
         partedAs(y, 0, 8, 1, 9, 2, 9, 45, 10, 46, 11, 47, 11);
 
-        BellTable full = withScore(oneByOne(48));
-        full.ringers(12);
-        due("all bells, all ringers", full.part(), 24);
-        for (int bell = 0; bell < 48; bell++) {
-            partedAs(full, bell, bell / 4);
-        }
-
-        sentence("each has at most most BELLS,");
+        terms("each has at most most BELLS,");
         due("four at first", partOf(oneByOne(4), ""), 2);
         due("five at first", partOf(oneByOne(5), ""), NONE);
         due("one", partOf(oneByOne(1), "most 1;"), 0);
         due("two", partOf(oneByOne(2), "most 1;"), NONE);
         due("twelve", partOf(oneByOne(12), "most 12;"), 10);
         due("thirteen", partOf(oneByOne(13), "most 12;reach 47;"), NONE);
-
         BellTable by = withScore(oneByOne(2));
         by.ringers(1);
         due("two", by.part(), 0);
@@ -244,7 +244,7 @@ public final class BoundaryHandsTest extends Boundary {
         Texts.score(by, oneByOne(5));
         due("one bell too many in the new score", by.part(), NONE);
 
-        sentence("the greatest not more than reach above the least,");
+        terms("the greatest not more than reach above the least,");
         due("12 at first", partOf("at 0 1;at 9 13;", ""), 0);
         due("13", partOf("at 0 1;at 9 14;", ""), NONE);
         due("all the way", partOf("at 0 0;at 9 47;", "reach 47;"), 0);
@@ -253,7 +253,7 @@ public final class BoundaryHandsTest extends Boundary {
         due("none at all", partOf("at 0 5;at 9 6;", "reach 0;"), NONE);
         due("two with a hole", partOf("at 0 5;at 9 7;", "reach 2;"), 0);
 
-        sentence("and HANDS that can be.");
+        terms("and HANDS that can be.");
         due("three at once", partOf(THREE, ""), NONE);
         BellTable two = withScore(THREE);
         two.ringers(2);
@@ -291,7 +291,7 @@ public final class BoundaryHandsTest extends Boundary {
     }
 
     private static void best() {
-        sentence("BEST: the least sum of TAKES;");
+        terms("BEST: the least sum of TAKES;");
         BellTable x = withScore(oneByOne(3));
         due("none, though one could have all", x.part(), 0);
         due("two of them", x.count(5), 2);
@@ -301,7 +301,7 @@ public final class BoundaryHandsTest extends Boundary {
         due("two each, not one and three", y.part(), 0);
         partedAs(y, 1, 0, 2, 0, 3, 1, 4, 1);
 
-        sentence("then the fewest RINGERS with a BELL;");
+        terms("then the fewest RINGERS with a BELL;");
         BellTable z = withScore(oneByOne(2));
         due("takes", z.part(), 0);
         due("one of them", z.count(5), 1);
@@ -309,7 +309,7 @@ public final class BoundaryHandsTest extends Boundary {
         due("one bell changes", w.cover(3), 1);
         partedAs(w, 0, 1, 1, 1);
 
-        sentence("then the least row of how many BELLS those who aren't ABSENT have.");
+        terms("then the least row of how many BELLS those who aren't ABSENT have.");
         partedAs(x, 0, 2, 1, 3, 2, 3);
         partedAs(z, 0, 3, 1, 3);
         x.absent(2, true);
@@ -324,7 +324,7 @@ public final class BoundaryHandsTest extends Boundary {
     }
 
     private static void parting() {
-        sentence("The BEST RANGES are the PARTING: the sum of TAKES; NONE: there are none (the PARTING stays).");
+        promise(13, "The BEST RANGES are the PARTING: the sum of TAKES; NONE: there are none (the PARTING stays).");
         BellTable x = withScore(THREE);
         for (int r = 0; r < 4; r++) {
             x.absent(r, true);
@@ -343,7 +343,7 @@ public final class BoundaryHandsTest extends Boundary {
         partedAs(x, 1, 3, 2, 2, 3, 2);
         due("takes in all", partOf(oneByOne(4), ""), 2);
 
-        sentence("(A SCORE without STROKES: 0.)");
+        promise(13, "(A SCORE without STROKES: 0.)");
         BellTable y = new BellTable();
         due("no score", y.part(), 0);
         due("a parting", y.count(4), 1);
@@ -357,7 +357,7 @@ public final class BoundaryHandsTest extends Boundary {
     }
 
     private static void giving() {
-        sentence("A BELL goes to a RINGER by hand: who had it (NONE);");
+        promise(14, "A BELL goes to a RINGER by hand: who had it (NONE);");
         BellTable x = withParting("at 0 0 47;", 12);
         due("of the least bell", x.give(0, 0), 10);
         due("of the greatest bell", x.give(47, 11), 11);
@@ -368,7 +368,7 @@ public final class BoundaryHandsTest extends Boundary {
         due("more than most and reach let", x.give(47, 5), 11);
         partedAs(x, 0, 5, 47, 5);
 
-        sentence("RANGE: no such RINGER, or the BELL isn't USED; STATE: there is no PARTING.");
+        promise(14, "RANGE: no such RINGER, or the BELL isn't USED; STATE: there is no PARTING.");
         BellTable y = withParting("at 0 1;", 4);
         for (int r : outside(0, 3)) {
             due("give(1, " + r + ")", y.give(1, r), RANGE);
@@ -385,7 +385,7 @@ public final class BoundaryHandsTest extends Boundary {
         due("no parting, not used", y.give(2, 0), RANGE);
         due("no score", new BellTable().give(0, 0), RANGE);
 
-        sentence("The RINGER of a BELL by the PARTING; NONE: none, or it isn't USED, or there is no PARTING.");
+        promise(15, "The RINGER of a BELL by the PARTING; NONE: none, or it isn't USED, or there is no PARTING.");
         BellTable z = withScore("at 0 0 47;");
         partedAs(z, 0, NONE, 47, NONE);
         z.part();
@@ -399,7 +399,8 @@ public final class BoundaryHandsTest extends Boundary {
     }
 
     private static void loads() {
-        sentence("TAKES of a RINGER's BELLS by the PARTING; NONE: HANDS can't be; RANGE; STATE: there is no PARTING.");
+        promise(16, "TAKES of a RINGER's BELLS by the PARTING; NONE: HANDS can't be; RANGE; "
+            + "STATE: there is no PARTING.");
         BellTable x = withScore("at 0 1 2 3;at 9 4;");
         due("no parting", x.load(0), STATE);
         due("no parting, no such one", x.load(4), RANGE);
@@ -423,7 +424,7 @@ public final class BoundaryHandsTest extends Boundary {
     }
 
     private static void covering() {
-        sentence("of all RANGES without that one too:");
+        terms("of all RANGES without that one too:");
         BellTable x = withParting(oneByOne(2), 4);
         partedAs(x, 0, 3, 1, 3);
         due("the one below", x.cover(3), 2);
@@ -434,7 +435,7 @@ public final class BoundaryHandsTest extends Boundary {
         due("one who is absent", x.cover(3), 0);
         due("the first", x.cover(0), 0);
 
-        sentence("the fewest USED BELLS that have another RINGER than they had; then as BEST.");
+        terms("the fewest USED BELLS that have another RINGER than they had; then as BEST.");
         BellTable y = withParting(oneByOne(3), 4, 0, 1, 1, 1, 2, 3);
         y.absent(2, true);
         due("one, though a take more", y.cover(3), 1);
@@ -447,7 +448,22 @@ public final class BoundaryHandsTest extends Boundary {
         due("no ranges, though without the one", w.cover(0), 1);
         partedAs(w, 0, 3, 1, 3);
 
-        sentence("it is the PARTING then (the RINGER isn't made ABSENT by it);");
+        promise(17, "COVER of a RINGER: how many BELLS have another RINGER:");
+        BellTable all = withParting(oneByOne(48), 12);
+        for (int bell = 0; bell < 48; bell++) {
+            all.give(bell, 0);
+        }
+        due("48 for eleven, each at most four", all.cover(11), NONE);
+        Texts.manners(all, "most 12;reach 47;");
+        due("all but twelve that the first one keeps", all.cover(11), 36);
+        due("those twelve, and two to make room for them", all.cover(0), 14);
+        for (int bell = 0; bell < 48; bell++) {
+            all.give(bell, 0);
+        }
+        due("all of them", all.cover(0), 48);
+        due("none of them", all.cover(0), 0);
+
+        promise(17, "it is the PARTING then (the RINGER isn't made ABSENT by it);");
         due("none absent", z.count(3), 0);
         due("not absent", z.absent(3, false), 0);
         due("by the parting", z.load(2), 0);
@@ -456,7 +472,7 @@ public final class BoundaryHandsTest extends Boundary {
     }
 
     private static void refusedCovers() {
-        sentence("NONE: there are no such RANGES (all stays); RANGE; STATE: there is no PARTING.");
+        promise(17, "NONE: there are no such RANGES (all stays); RANGE; STATE: there is no PARTING.");
         BellTable x = withParting(THREE, 2);
         due("one is too few", x.cover(0), NONE);
         due("one is too few", x.cover(1), NONE);
@@ -477,7 +493,7 @@ public final class BoundaryHandsTest extends Boundary {
     }
 
     private static void helping() {
-        sentence("done by the RINGER one below or one above (who is told and not ABSENT)");
+        terms("done by the RINGER one below or one above (who is told and not ABSENT)");
         BellTable x = withParting(THREE, 3, 1, 0, 2, 0, 3, 0);
         due("the first has one above alone", x.help(0), 0);
         due("the one above", x.helped(1), 1);
@@ -502,7 +518,7 @@ public final class BoundaryHandsTest extends Boundary {
         w.absent(0, false);
         due("one who is absent, too", w.help(1), 0);
 
-        sentence("among that one's own (as if that STROKE were of a BELL of that one's) so that HANDS of both can be:");
+        terms("among that one's own (as if that STROKE were of a BELL of that one's) so that HANDS of both can be:");
         due("the other has two of them", withParting("at 0 1 2 3 4 5;", 3, 3, 2, 4, 2, 5, 2, 1, 1, 2, 1).help(2), NONE);
         due("the other has one of them", withParting("at 0 1 2 3 4;", 3, 2, 2, 3, 2, 4, 2, 1, 1).help(2), 0);
         due("four at once", withParting("at 0 1 2 3 4;", 3, 1, 2, 2, 2, 3, 2, 4, 2).help(2), NONE);
@@ -529,7 +545,7 @@ public final class BoundaryHandsTest extends Boundary {
     }
 
     private static void bestHelp() {
-        sentence("the least sum of TAKES of the two; then the least STROKE; then the one below.");
+        terms("the least sum of TAKES of the two; then the least STROKE; then the one below.");
         BellTable x = withParting("at 0 1 2 3;at 9 1;", 3, 1, 1, 2, 1, 3, 1);
         due("the second does without a take", x.help(1), 0);
         due("the second", x.helped(0), 1);
@@ -554,7 +570,7 @@ public final class BoundaryHandsTest extends Boundary {
     }
 
     private static void refusedHelp() {
-        sentence("NONE: no one STROKE does; RANGE; STATE: there is no PARTING.");
+        promise(18, "NONE: no one STROKE does; RANGE; STATE: there is no PARTING.");
         BellTable x = withParting("at 0 1 2 3 4;", 2, 1, 0, 2, 0, 3, 0, 4, 0);
         due("two would be needed", x.help(0), NONE);
         due("one without bells", x.help(1), NONE);
@@ -566,14 +582,14 @@ public final class BoundaryHandsTest extends Boundary {
         due("no parting, no such one", x.help(2), RANGE);
         due("no bells at all", withParting("", 4).help(0), NONE);
 
-        sentence("(Asked also where HANDS can be without.)");
+        promise(18, "(Asked also where HANDS can be without.)");
         BellTable y = withParting(oneByOne(3), 2, 0, 0, 1, 0, 2, 0);
         due("can be", y.load(0), 1);
         due("help", y.help(0), 0);
         due("nor does a bell go with it", y.parted(0), 0);
         due("nor does a take", y.load(0), 1);
 
-        sentence("Of the latest help() that told TAKES, what 0: the STROKE, 1: the RINGER who does it.");
+        promise(19, "Of the latest help() that told TAKES, what 0: the STROKE, 1: the RINGER who does it.");
         due("stroke", y.helped(0), 0);
         due("ringer", y.helped(1), 1);
         due("nobody has bells there", y.help(1), NONE);
@@ -583,7 +599,7 @@ public final class BoundaryHandsTest extends Boundary {
         due("stroke", y.helped(0), 0);
         due("ringer", y.helped(1), 1);
 
-        sentence("NONE for others, ahead of any, or if a score() came since.");
+        promise(19, "NONE for others, ahead of any, or if a score() came since.");
         for (int what : outside(0, 1)) {
             due("helped(" + what + ")", y.helped(what), NONE);
         }
@@ -612,6 +628,6 @@ public final class BoundaryHandsTest extends Boundary {
         helping();
         bestHelp();
         refusedHelp();
-        finish();
+        finish(11, 19);
     }
 }

@@ -39,7 +39,7 @@ public final class BoundarySoundsTest extends Boundary {
     }
 
     private static void sounding() {
-        sentence("a STROKE sounds from its beat on for its LENGTH, but no longer than to the next STROKE of its BELL.");
+        terms("a STROKE sounds from its beat on for its LENGTH, but no longer than to the next STROKE of its BELL.");
         ends("at 0 1;", 0, 1);
         ends("at 999 1 for 16;", 0, 1015);
         ends("at 0 1 for 16;at 1 1;", 0, 1);
@@ -54,7 +54,7 @@ public final class BoundarySoundsTest extends Boundary {
     }
 
     private static void clashing() {
-        sentence("two STROKES on BELLS next to each other (one apart by number)");
+        terms("two STROKES on BELLS next to each other (one apart by number)");
         clashes("at 0 0 1;", 1);
         clashes("at 0 46 47;", 1);
         clashes("at 0 0 2;", 0);
@@ -62,7 +62,7 @@ public final class BoundarySoundsTest extends Boundary {
         clashes("at 0 11 23;", 0);
         clashes("at 0 1 for 2;at 1 1;", 0);
 
-        sentence("the second one (by number) while the first one sounds (at the same beat, too).");
+        terms("the second one (by number) while the first one sounds (at the same beat, too).");
         clashes("at 5 1 2;", 1);
         clashes("at 5 1 for 3;at 7 2;", 1);
         clashes("at 5 1 for 3;at 8 2;", 0);
@@ -73,14 +73,14 @@ public final class BoundarySoundsTest extends Boundary {
         clashes("at 5 1;at 6 2 for 16;", 0);
         clashes("at 984 0 for 16;at 999 1;", 1);
 
-        sentence("How many CLASHES there are.");
+        promise(20, "How many CLASHES there are.");
         due("no score", new BellTable().clashes(), 0);
         clashes("", 0);
         clashes("at 0 1 2 3;", 2);
         clashes("at 0 1 for 4;at 1 2;at 2 0 2;", 3);
         clashes(Texts.many(160), 4 * 39);
 
-        sentence("CLASH i (by the first STROKE, then by the second one)");
+        promise(21, "CLASH i (by the first STROKE, then by the second one)");
         BellTable x = withScore("at 0 2 for 9 5 for 9;at 1 1;at 2 4;at 3 3;");
         clashRow(x, 0, 0, 2);
         clashRow(x, 1, 0, 4);
@@ -89,7 +89,7 @@ public final class BoundarySoundsTest extends Boundary {
         clashRow(all, 0, 0, 1, 1);
         clashRow(all, 155, 158, 159, 1);
 
-        sentence("2: how many beats both sound.");
+        promise(21, "2: how many beats both sound.");
         clashRow(withScore("at 0 1 for 4;at 1 2 for 2;"), 0, 0, 1, 2);
         clashRow(withScore("at 0 1 for 4;at 1 2 for 3;"), 0, 0, 1, 3);
         clashRow(withScore("at 0 1 for 4;at 1 2 for 9;"), 0, 0, 1, 3);
@@ -97,7 +97,7 @@ public final class BoundarySoundsTest extends Boundary {
         clashRow(withScore("at 0 1 for 9;at 1 2 for 9;at 3 2;"), 0, 0, 1, 2);
         clashRow(withScore("at 0 1 for 16 2 for 16;"), 0, 0, 1, 16);
 
-        sentence("NONE when there is none such.");
+        promise(21, "NONE when there is none such.");
         for (int i : outside(0, 2)) {
             clashRow(x, i, NONE, NONE, NONE);
         }
@@ -109,7 +109,7 @@ public final class BoundarySoundsTest extends Boundary {
     }
 
     private static void damping() {
-        sentence("cut down to where the earliest of those second ones of its CLASHES begins that begin later "
+        terms("cut down to where the earliest of those second ones of its CLASHES begins that begin later "
             + "than itself");
         damp("at 0 5 for 9;at 3 4;at 5 6;", 6, 3, 1, 1);
         damp("at 0 5 for 9;at 3 6;at 5 4;", 6, 3, 1, 1);
@@ -124,11 +124,11 @@ public final class BoundarySoundsTest extends Boundary {
         damp("at 0 5 for 9;at 2 5 6;", 0, 9, 1, 1);
         damp("at 0 5 for 9;at 2 5;at 2 4;", 0, 9, 1, 1);
 
-        sentence("(all as they are ahead of it).");
+        terms("(all as they are ahead of it).");
         damp("at 0 1 for 9;at 1 2 for 9;at 2 3;", 16, 1, 1, 1);
         damp("at 0 3 for 9;at 1 2 for 9;at 2 1 for 9;at 3 2;", 8 + 8 + 8, 1, 1, 1, 1);
 
-        sentence("DAMPED: how many beats are cut off in all.");
+        promise(22, "DAMPED: how many beats are cut off in all.");
         due("no score", new BellTable().damp(), 0);
         damp("at 0 1;at 1 2;", 0);
         damp(Texts.many(160), 0);
@@ -147,7 +147,7 @@ public final class BoundarySoundsTest extends Boundary {
     }
 
     private static void pairs() {
-        sentence("if the BELLS are alike and the beats at most 2 apart (as many points)");
+        terms("if the BELLS are alike and the beats at most 2 apart (as many points)");
         for (int late = -2; late <= 2; late++) {
             heard("at 5 1;", "at " + (5 + late) + " 1;", Math.abs(late));
         }
@@ -155,13 +155,13 @@ public final class BoundarySoundsTest extends Boundary {
         heard("at 5 1;", "at 2 1;", 6);
         heard("at 0 0;at 999 47;", "at 2 0;at 997 47;", 4);
 
-        sentence("or the beats are alike (2 points, if the BELLS aren't);");
+        terms("or the beats are alike (2 points, if the BELLS aren't);");
         heard("at 5 1;", "at 5 47;", 2);
         heard("at 5 1;", "at 5 2;", 2);
         heard("at 5 1;", "at 6 2;", 6);
         heard("at 5 1;", "at 4 2;", 6);
 
-        sentence("a STROKE that is in none is MISSED (3), one that was heard and is in none is MORE (3).");
+        terms("a STROKE that is in none is MISSED (3), one that was heard and is in none is MORE (3).");
         heard("at 5 1;", "", 3);
         heard("", "at 5 1;", 3);
         heard("", "", 0);
@@ -174,14 +174,14 @@ public final class BoundarySoundsTest extends Boundary {
         due("nothing alike", Texts.heard(far, Texts.many(160).replace("at ", "at 50")), 960);
         due("all of them more", far.more(), 160);
 
-        sentence("PAIRS go forth in both.");
+        terms("PAIRS go forth in both.");
         heard("at 0 1;at 1 2;", "at 0 2;at 1 1;", 4);
         heard("at 2 1;at 3 2;", "at 1 2;at 4 1;", 8);
         heard("at 0 1 2;", "at 0 2 3;", 4);
     }
 
     private static void ties() {
-        sentence("from the begin on, where more than one way is as good: a PAIR, else MISSED, else MORE.");
+        terms("from the begin on, where more than one way is as good: a PAIR, else MISSED, else MORE.");
         BellTable x = laid("at 0 1;at 2 1;", "at 1 1;");
         laidRow(x, 0, 1, 1, 1);
         laidRow(x, 1, 0, 0, NONE);
@@ -224,7 +224,7 @@ public final class BoundarySoundsTest extends Boundary {
     }
 
     private static void hearing() {
-        sentence("THE TAPE is WHAT WAS HEARD: the points; NONE with a FAULT (all stays).");
+        promise(23, "THE TAPE is WHAT WAS HEARD: the points; NONE with a FAULT (all stays).");
         BellTable x = withParting("at 0 1;at 5 2;", 4);
         due("points", Texts.heard(x, "at 1 1;at 9 9;"), 1 + 3 + 3);
         for (String text : new String[] {"at 0 1;at 5 2", "at 0 1;at 5 48;", "at 0 1 1;", ".", "at 0 1 stick;"}) {
@@ -236,7 +236,18 @@ public final class BoundarySoundsTest extends Boundary {
             due("strokes", x.count(0), 2);
         }
 
-        sentence("1: beats by which it was late (below 0: early; 0), 2: the BELL that was heard (NONE: MISSED).");
+        promise(24, "By the latest heard() that told points, of STROKE k, what 0: 1 a PAIR, 0 MISSED;");
+        BellTable z = laid("at 0 1;at 9 2;", "at 0 1;");
+        laidRow(z, 0, 1);
+        laidRow(z, 1, 0);
+        Texts.heard(z, "at 9 2");
+        laidRow(z, 0, 1);
+        laidRow(z, 1, 0);
+        Texts.heard(z, "at 9 2;");
+        laidRow(z, 0, 0);
+        laidRow(z, 1, 1);
+
+        promise(24, "1: beats by which it was late (below 0: early; 0), 2: the BELL that was heard (NONE: MISSED).");
         BellTable y = laid("at 5 1;at 10 2;at 20 3;at 30 4;at 40 0;at 50 47;",
             "at 3 1;at 12 2;at 20 9;at 40 47;at 50 0;");
         laidRow(y, 0, 1, -2, 1);
@@ -251,7 +262,7 @@ public final class BoundarySoundsTest extends Boundary {
         }
         Texts.heard(y, "at 3 1;");
 
-        sentence("-9 when there is none such, or a score() came since.");
+        promise(24, "-9 when there is none such, or a score() came since.");
         laidRow(withScore("at 0 1;"), 0, -9, -9, -9);
         for (int k : outside(0, 5)) {
             laidRow(y, k, -9, -9, -9);
@@ -267,7 +278,7 @@ public final class BoundarySoundsTest extends Boundary {
     }
 
     private static void tellingMore() {
-        sentence("How many were MORE by it; NONE: there was no heard() that told points since the latest score().");
+        promise(25, "How many were MORE by it; NONE: there was no heard() that told points since the latest score().");
         BellTable x = new BellTable();
         due("ahead of any", x.more(), NONE);
         Texts.heard(x, "at 0 48;");
@@ -283,7 +294,7 @@ public final class BoundarySoundsTest extends Boundary {
     }
 
     private static void blaming() {
-        sentence("the points of PAIRS and MISSED on STROKES of that one's BELLS, and of MORE on these BELLS.");
+        terms("the points of PAIRS and MISSED on STROKES of that one's BELLS, and of MORE on these BELLS.");
         BellTable x = withParting("at 0 0;at 5 1;at 9 2;at 20 47;", 4, 0, 0, 1, 1, 2, 2, 47, 3);
         due("points", Texts.heard(x, "at 2 0;at 5 7;at 20 47;at 30 0 7 47;"), 2 + 2 + 3 + 3 + 3 + 3);
         due("late, and one more", x.blame(0), 2 + 3);
@@ -308,7 +319,7 @@ public final class BoundarySoundsTest extends Boundary {
             due("none of blame(" + r + ")", x.blame(r), 0);
         }
 
-        sentence("BLAME of a RINGER by it and the PARTING as it is now; RANGE; STATE: there is no PARTING, "
+        promise(26, "BLAME of a RINGER by it and the PARTING as it is now; RANGE; STATE: there is no PARTING, "
             + "or no such heard().");
         BellTable y = withScore("at 0 1;");
         due("neither", y.blame(0), STATE);
@@ -341,6 +352,6 @@ public final class BoundarySoundsTest extends Boundary {
         hearing();
         tellingMore();
         blaming();
-        finish();
+        finish(20, 26);
     }
 }

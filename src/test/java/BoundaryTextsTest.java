@@ -42,7 +42,7 @@ public final class BoundaryTextsTest extends Boundary {
     }
 
     private static void lastCall() {
-        sentence("An object is used for at most 512 calls after it has been made");
+        terms("An object is used for at most 512 calls after it has been made");
         BellTable x = new BellTable();
         for (int i = 1; i < 512; i++) {
             due("call " + i, x.absent(0, i % 2 == 1), 1);
@@ -50,14 +50,25 @@ public final class BoundaryTextsTest extends Boundary {
         due("call 512", x.count(3), 1);
     }
 
+    private static void constants() {
+        terms("The constants: `NONE = -1`: There is none.");
+        due("NONE", BellTable.NONE, NONE);
+        terms("`RANGE = -2`: A number that can't be.");
+        due("RANGE", BellTable.RANGE, RANGE);
+        terms("`FULL = -3`: No room.");
+        due("FULL", BellTable.FULL, FULL);
+        terms("`STATE = -4`: Not as things are.");
+        due("STATE", BellTable.STATE, STATE);
+    }
+
     private static void bellsAndRingers() {
-        sentence("BELLS 0 .. 47 lie on the table by number.");
+        terms("BELLS 0 .. 47 lie on the table by number.");
         BellTable x = withScore("at 0 47 0;");
         due("the least", x.stroke(0, 1), 0);
         due("the greatest", x.stroke(1, 1), 47);
         scoreFault("at 0 48;", BOUNDS, 5);
 
-        sentence("RINGERS 0 .. 11 stand along it by number (so many as are told; 4 at first), some of them ABSENT.");
+        terms("RINGERS 0 .. 11 stand along it by number (so many as are told; 4 at first), some of them ABSENT.");
         BellTable y = new BellTable();
         due("the first", y.absent(0, true), 1);
         due("the last of four", y.absent(3, true), 1);
@@ -69,13 +80,13 @@ public final class BoundaryTextsTest extends Boundary {
     }
 
     private static void tape() {
-        sentence("THE TAPE has at most 1200 bytes;");
+        terms("THE TAPE has at most 1200 bytes;");
         String whole = "at 0" + " ".repeat(1194) + "1;";
         goodScore(whole, 1);
         scoreFault(whole.substring(0, 1199) + " ", SYNTAX, 1200);
         scoreFault(whole.substring(0, 1199) + ".", SYNTAX, 1199);
 
-        sentence("each call that reads it empties it, whatever it tells.");
+        terms("each call that reads it empties it, whatever it tells.");
         String[] texts = {"at 0 1;", "take 1;", "", "at 0", "at 0 48;", "at 0 1 1;", "take 1;take 1;", "...."};
         for (String text : texts) {
             BellTable x = new BellTable();
@@ -92,14 +103,14 @@ public final class BoundaryTextsTest extends Boundary {
     }
 
     private static void tokens() {
-        sentence("TOKENS with any blanks (32, 10) between:");
+        terms("TOKENS with any blanks (32, 10) between:");
         goodScore("at0 1for2stick 3shake;at0 4;", 3);
         goodScore("\n \nat\n\n0 \n 1  for\n2\n\nstick 3 shake\n;\n  at 0\n4 ;\n\n", 3);
         for (int b : new int[] {0, 9, 11, 12, 13, 31, 33, 128 + 10, 128 + 32}) {
             scoreFault("at" + (char) b + "0 1;", SYNTAX, 2);
         }
 
-        sentence("WORDS (small letters, as many as there are, 8 at most)");
+        terms("WORDS (small letters, as many as there are, 8 at most)");
         for (char letter = 'a'; letter <= 'z'; letter++) {
             scoreFault("at 1 2 stick" + letter + ";", SYNTAX, 7);
         }
@@ -113,7 +124,7 @@ public final class BoundaryTextsTest extends Boundary {
         scoreFault("at 1 2 abcdefghi;", SYNTAX, 7);
         scoreFault("at 1 2 shakesticks;", SYNTAX, 7);
 
-        sentence("N (digits, as many as there are, 3 at most)");
+        terms("N (digits, as many as there are, 3 at most)");
         goodScore("at 999 047;", 1);
         due("047 is one bell", withScore("at 0 047;").stroke(0, 1), 47);
         for (int digit = 0; digit <= 9; digit++) {
@@ -132,7 +143,7 @@ public final class BoundaryTextsTest extends Boundary {
     }
 
     private static void scoreText() {
-        sentence("A SCORE's text = {\"at\" N STROKE {STROKE} \";\"}.");
+        terms("A SCORE's text = {\"at\" N STROKE {STROKE} \";\"}.");
         goodScore("", 0);
         goodScore(" \n", 0);
         goodScore("at 0 1;", 1);
@@ -143,7 +154,7 @@ public final class BoundaryTextsTest extends Boundary {
         scoreFault("at 0 1;2;", SYNTAX, 7);
         scoreFault(";", SYNTAX, 0);
 
-        sentence("STROKE = N [\"for\" N] [\"stick\" | \"shake\"]:");
+        terms("STROKE = N [\"for\" N] [\"stick\" | \"shake\"]:");
         goodScore("at 0 1 for 2 stick 2 for 2 shake 3 stick 4 shake 5 for 2 6;", 6);
         scoreFault("at 0 1 for;", SYNTAX, 10);
         scoreFault("at 0 1 for stick;", SYNTAX, 11);
@@ -157,7 +168,7 @@ public final class BoundaryTextsTest extends Boundary {
         scoreFault("at 0 for 2;", SYNTAX, 5);
         scoreFault("at 0 stick;", SYNTAX, 5);
 
-        sentence("its LENGTH in beats (1 .. 16; 1 if it isn't told)");
+        terms("its LENGTH in beats (1 .. 16; 1 if it isn't told)");
         BellTable x = withScore("at 0 1 for 1 2 for 16 3;");
         due("the least", x.stroke(0, 2), 1);
         due("the greatest", x.stroke(1, 2), 16);
@@ -165,13 +176,13 @@ public final class BoundaryTextsTest extends Boundary {
         scoreFault("at 0 1 for 0;", BOUNDS, 11);
         scoreFault("at 0 1 for 17;", BOUNDS, 11);
 
-        sentence("its MANNER (0 rung, 1 with a stick, 2 shaken)");
+        terms("its MANNER (0 rung, 1 with a stick, 2 shaken)");
         BellTable y = withScore("at 0 1 2 stick 3 shake 4;");
         for (int k = 0; k < 4; k++) {
             due("manner of " + k, y.stroke(k, 3), k % 3);
         }
 
-        sentence("a beat, 0 .. 999, not below that of the clause ahead.");
+        terms("a beat, 0 .. 999, not below that of the clause ahead.");
         goodScore("at 0 1;at 0 2;at 999 3;at 999 4;", 4);
         scoreFault("at 1 1;at 0 2;", BOUNDS, 10);
         scoreFault("at 999 1;at 998 2;", BOUNDS, 12);
@@ -179,13 +190,13 @@ public final class BoundaryTextsTest extends Boundary {
     }
 
     private static void manyStrokes() {
-        sentence("At most 160 STROKES;");
+        terms("At most 160 STROKES;");
         goodScore(Texts.many(160), 160);
         String full = Texts.many(160);
         scoreFault(full + "at 4 0;", ROOM, full.length() + 5);
         scoreFault(full.substring(0, full.length() - 1) + " 40;", ROOM, full.length());
 
-        sentence("they stand by beat, then by BELL, numbered so from 0.");
+        terms("they stand by beat, then by BELL, numbered so from 0.");
         BellTable x = withScore("at 3 9 for 2 47 stick 0 for 4 shake 8;at 3 46 for 5 1;at 4 0;");
         row(x, 0, 3, 0, 4, 2);
         row(x, 1, 3, 1, 1, 0);
@@ -214,7 +225,7 @@ public final class BoundaryTextsTest extends Boundary {
     }
 
     private static void mannersText() {
-        sentence("MANNERS' text = {(\"take\" N | \"most\" N | \"reach\" N | \"stick\" N) \";\"}:");
+        terms("MANNERS' text = {(\"take\" N | \"most\" N | \"reach\" N | \"stick\" N) \";\"}:");
         BellTable x = new BellTable();
         due("no clause", Texts.manners(x, ""), 0);
         due("blanks", Texts.manners(x, "\n \n"), 0);
@@ -229,18 +240,18 @@ public final class BoundaryTextsTest extends Boundary {
         mannersFault("at 0 1;", SYNTAX, 0);
         mannersFault("5;", SYNTAX, 0);
 
-        sentence("take 0 .. 9 beats (1)");
+        terms("take 0 .. 9 beats (1)");
         ruleBounds("take", 0, 0, 9);
-        sentence("most 1 .. 12 BELLS (4)");
+        terms("most 1 .. 12 BELLS (4)");
         ruleBounds("most", 1, 1, 12);
-        sentence("reach 0 .. 47 (12)");
+        terms("reach 0 .. 47 (12)");
         ruleBounds("reach", 2, 0, 47);
-        sentence("stick 0 .. 9 beats (1).");
+        terms("stick 0 .. 9 beats (1).");
         ruleBounds("stick", 3, 0, 9);
     }
 
     private static void heardText() {
-        sentence("WHAT WAS HEARD, a text = {\"at\" N N {N} \";\"}: beats as in a SCORE, BELLS that were heard then;");
+        terms("WHAT WAS HEARD, a text = {\"at\" N N {N} \";\"}: beats as in a SCORE, BELLS that were heard then;");
         due("the least and the greatest", Texts.heard(new BellTable(), "at 0 0;at 0 1;at 999 47;at 999 46;"), 12);
         heardFault("at;", SYNTAX, 2);
         heardFault("at 0;", SYNTAX, 4);
@@ -250,7 +261,7 @@ public final class BoundaryTextsTest extends Boundary {
         heardFault("at 0 48;", BOUNDS, 5);
         heardFault("at 1 1;at 0 2;", BOUNDS, 10);
 
-        sentence("at most 160 of them; they stand by beat, then by BELL.");
+        terms("at most 160 of them; they stand by beat, then by BELL.");
         String full = Texts.many(160);
         due("160", Texts.heard(new BellTable(), full), 480);
         heardFault(full + "at 4 0;", ROOM, full.length() + 5);
@@ -258,7 +269,7 @@ public final class BoundaryTextsTest extends Boundary {
     }
 
     private static void faults() {
-        sentence("KIND and PLACE (a TOKEN's first byte; the text's length at its end)");
+        terms("KIND and PLACE (a TOKEN's first byte; the text's length at its end)");
         scoreFault("  \nat 0  \n 48;", BOUNDS, 11);
         scoreFault("at 0 1 \n sticker;", SYNTAX, 9);
         scoreFault("at", SYNTAX, 2);
@@ -272,7 +283,7 @@ public final class BoundaryTextsTest extends Boundary {
         mannersFault("take 1\n", SYNTAX, 7);
         heardFault("at 0 1 2 ", SYNTAX, 9);
 
-        sentence("the first come to as TOKENS are read one by one");
+        terms("the first come to as TOKENS are read one by one");
         scoreFault("at 0 48 .", BOUNDS, 5);
         scoreFault("at 0 . 48", SYNTAX, 5);
         scoreFault("at 0 1 1 48;", TWICE, 7);
@@ -281,7 +292,7 @@ public final class BoundaryTextsTest extends Boundary {
         mannersFault("take 10;take", BOUNDS, 5);
         mannersFault("take 1;take 10", TWICE, 7);
 
-        sentence("of one TOKEN the least KIND:");
+        terms("of one TOKEN the least KIND:");
         String full = Texts.many(160);
         scoreFault("at 0 1 0001;", SYNTAX, 7);
         scoreFault("at 0 9999;", SYNTAX, 5);
@@ -296,7 +307,7 @@ public final class BoundaryTextsTest extends Boundary {
     }
 
     private static void kinds() {
-        sentence("1 SYNTAX: a TOKEN (or byte that is none, a run that is too long) with which no text goes on.");
+        terms("1 SYNTAX: a TOKEN (or byte that is none, a run that is too long) with which no text goes on.");
         for (int b = 0; b < 256; b++) {
             boolean digit = b >= '0' && b <= '9';
             if (b == ' ' || b == '\n' || digit) {
@@ -312,13 +323,13 @@ public final class BoundaryTextsTest extends Boundary {
         scoreFault("for 1 2;", SYNTAX, 0);
         scoreFault("at 1 2 3333;", SYNTAX, 7);
 
-        sentence("2 RANGE: an N out of its bounds.");
+        terms("2 RANGE: an N out of its bounds.");
         scoreFault("at 2 1;at 1 1;", BOUNDS, 10);
         scoreFault("at 2 999;", BOUNDS, 5);
         scoreFault("at 2 1 for 999;", BOUNDS, 11);
         mannersFault("reach 999;", BOUNDS, 6);
 
-        sentence("3 TWICE: a BELL that is told at that beat already; a WORD of MANNERS that was told.");
+        terms("3 TWICE: a BELL that is told at that beat already; a WORD of MANNERS that was told.");
         scoreFault("at 0 1 2 1;", TWICE, 9);
         scoreFault("at 0 1 for 3 stick 1;", TWICE, 19);
         scoreFault("at 7 1 2;at 7 3;at 7 1;", TWICE, 21);
@@ -330,7 +341,7 @@ public final class BoundaryTextsTest extends Boundary {
         mannersFault("reach 1;reach 1;", TWICE, 8);
         mannersFault("stick 0;stick 0;", TWICE, 8);
 
-        sentence("4 ROOM: a STROKE (a BELL that was heard) too many, at its BELL.");
+        terms("4 ROOM: a STROKE (a BELL that was heard) too many, at its BELL.");
         String full = Texts.many(160);
         scoreFault(full + "at 4 10 for 99;", ROOM, full.length() + 5);
         scoreFault(full + " at 999   0", ROOM, full.length() + 10);
@@ -339,7 +350,7 @@ public final class BoundaryTextsTest extends Boundary {
     }
 
     private static void newObject() {
-        sentence("Four RINGERS, no SCORE, no PARTING; day 0.");
+        promise(1, "Four RINGERS, no SCORE, no PARTING; day 0.");
         BellTable x = new BellTable();
         int[] counts = {0, 0, 4, 0, 0, 0, 0, 0, 0};
         for (int what = 0; what < counts.length; what++) {
@@ -353,7 +364,7 @@ public final class BoundaryTextsTest extends Boundary {
     }
 
     private static void feeding() {
-        sentence("Twenty bytes come behind THE TAPE, the highest of each int first: how many it has;");
+        promise(2, "Twenty bytes come behind THE TAPE, the highest of each int first: how many it has;");
         BellTable x = new BellTable();
         due("at 12 3 for 4 shake;", x.feed(0x61742031, 0x32203320, 0x666f7220, 0x34207368, 0x616b653b), 20);
         due("score", x.score(), 1);
@@ -368,7 +379,7 @@ public final class BoundaryTextsTest extends Boundary {
         x.end(3);
         due("behind a cut", x.feed(Integer.MIN_VALUE, 0, 0, 0, Integer.MAX_VALUE), 23);
 
-        sentence("FULL when there would be more than 1200.");
+        promise(2, "FULL when there would be more than 1200.");
         BellTable y = new BellTable();
         for (int i = 1; i <= 60; i++) {
             due("feed " + i, y.feed(0x20202020, 0x20202020, 0x20202020, 0x20202020, 0x20202020), 20 * i);
@@ -388,7 +399,7 @@ public final class BoundaryTextsTest extends Boundary {
     }
 
     private static void cutting() {
-        sentence("THE TAPE has its first n bytes alone: n;");
+        promise(3, "THE TAPE has its first n bytes alone: n;");
         BellTable x = new BellTable();
         due("at 0 1; 2;", x.feed(0x61742030, 0x20313b20, 0x323b0000, 0, 0), 20);
         due("all of them", x.end(20), 20);
@@ -398,7 +409,7 @@ public final class BoundaryTextsTest extends Boundary {
         due("none of them", x.end(0), 0);
         due("empty", x.score(), 0);
 
-        sentence("NONE when it has not so many, or n is below 0.");
+        promise(3, "NONE when it has not so many, or n is below 0.");
         BellTable y = new BellTable();
         due("of an empty one", y.end(0), 0);
         due("of an empty one", y.end(1), NONE);
@@ -412,7 +423,7 @@ public final class BoundaryTextsTest extends Boundary {
     }
 
     private static void scoring() {
-        sentence("THE TAPE is the SCORE: how many STROKES;");
+        promise(4, "THE TAPE is the SCORE: how many STROKES;");
         BellTable x = new BellTable();
         due("an empty one", x.score(), 0);
         due("as many as there can be", Texts.score(x, Texts.many(160)), 160);
@@ -420,11 +431,10 @@ public final class BoundaryTextsTest extends Boundary {
         row(x, 0, 5, 7, 1, 0, 6);
         due("those before are gone", x.stroke(1, 0), NONE);
         due("used ones too", x.count(1), 1);
-
         due("one without a stroke", Texts.score(x, " "), 0);
         row(x, 0, NONE, NONE, NONE, NONE, NONE);
 
-        sentence("NONE with a FAULT (the one before stays).");
+        promise(4, "NONE with a FAULT (the one before stays).");
         BellTable y = withScore("at 0 1 for 9;at 2 2 shake;");
         y.damp();
         String[] faulty = {"at 7 7;at 8 8;at 9 48;", "at 7 7", ".", Texts.many(160) + "at 9 9;"};
@@ -436,7 +446,7 @@ public final class BoundaryTextsTest extends Boundary {
             row(y, 1, 2, 2, 1, 2, 3);
         }
 
-        sentence("PARTING, HANDS, HELP and HEARD are none then.");
+        promise(4, "PARTING, HANDS, HELP and HEARD are none then.");
         for (String text : new String[] {"at 0 1;at 5 2;", ""}) {
             BellTable z = withParting("at 0 1;at 5 2;", 4);
             due("hands", z.hands(6), 0);
@@ -454,7 +464,7 @@ public final class BoundaryTextsTest extends Boundary {
     }
 
     private static void mannering() {
-        sentence("THE TAPE is MANNERS: how many clauses; NONE with a FAULT (they stay).");
+        promise(5, "THE TAPE is MANNERS: how many clauses; NONE with a FAULT (they stay).");
         BellTable x = new BellTable();
         due("none", x.manners(), 0);
         due("all", Texts.manners(x, "take 9;most 12;reach 47;stick 9;"), 4);
@@ -464,7 +474,7 @@ public final class BoundaryTextsTest extends Boundary {
             rules(x, 9, 12, 47, 9);
         }
 
-        sentence("(What it doesn't tell is as at first.)");
+        promise(5, "(What it doesn't tell is as at first.)");
         String[] words = {"take", "most", "reach", "stick"};
         for (int which = 0; which < words.length; which++) {
             BellTable y = new BellTable();
@@ -479,8 +489,8 @@ public final class BoundaryTextsTest extends Boundary {
     }
 
     private static void tellingFaults() {
-        sentence("Of the latest score(), manners() or heard(), what 0: its FAULT's KIND, 0 without (and ahead of any), "
-            + "1: its PLACE (NONE).");
+        promise(6, "Of the latest score(), manners() or heard(), what 0: its FAULT's KIND, "
+            + "0 without (and ahead of any), 1: its PLACE (NONE).");
         BellTable x = new BellTable();
         due("ahead of any", x.fault(0), 0);
         due("ahead of any", x.fault(1), NONE);
@@ -508,7 +518,7 @@ public final class BoundaryTextsTest extends Boundary {
         due("score without", x.fault(0), 0);
         due("score without", x.fault(1), NONE);
 
-        sentence("NONE for another what.");
+        promise(6, "NONE for another what.");
         Texts.score(x, "at 0 48;");
         for (int what : outside(0, 1)) {
             due("fault(" + what + ")", x.fault(what), NONE);
@@ -516,7 +526,7 @@ public final class BoundaryTextsTest extends Boundary {
     }
 
     private static void tellingRules() {
-        sentence("What 0: take, 1: most, 2: reach, 3: stick. NONE for others.");
+        promise(7, "What 0: take, 1: most, 2: reach, 3: stick. NONE for others.");
         BellTable x = new BellTable();
         rules(x, AT_FIRST);
         for (int what : outside(0, 3)) {
@@ -525,17 +535,17 @@ public final class BoundaryTextsTest extends Boundary {
     }
 
     private static void tellingStrokes() {
-        sentence("2: LENGTH (as it is now)");
+        promise(8, "2: LENGTH (as it is now)");
         BellTable x = withScore("at 0 1 for 16;at 1 2;");
         due("as told", x.stroke(0, 2), 16);
         x.damp();
         due("as it is now", x.stroke(0, 2), 1);
 
-        sentence("4: the beat at which it ends sounding.");
+        promise(8, "4: the beat at which it ends sounding.");
         due("as it is now", x.stroke(0, 4), 1);
         due("beyond the last beat", withScore("at 999 47 for 16;").stroke(0, 4), 1015);
 
-        sentence("NONE when there is none such.");
+        promise(8, "NONE when there is none such.");
         for (int k : outside(0, 1)) {
             due("stroke(" + k + ", 0)", x.stroke(k, 0), NONE);
             due("stroke(" + k + ", 4)", x.stroke(k, 4), NONE);
@@ -547,7 +557,7 @@ public final class BoundaryTextsTest extends Boundary {
     }
 
     private static void tellingRingers() {
-        sentence("So many RINGERS (1 .. 12) are told: how many there were; RANGE.");
+        promise(9, "So many RINGERS (1 .. 12) are told: how many there were; RANGE.");
         BellTable x = new BellTable();
         due("the greatest", x.ringers(12), 4);
         due("the least", x.ringers(1), 12);
@@ -557,7 +567,7 @@ public final class BoundaryTextsTest extends Boundary {
             due("as many as there were", x.count(2), 1);
         }
 
-        sentence("The PARTING is none then; nobody is ABSENT.");
+        promise(9, "The PARTING is none then; nobody is ABSENT.");
         BellTable y = withParting("at 0 1;", 3);
         y.absent(0, true);
         y.absent(2, true);
@@ -577,7 +587,7 @@ public final class BoundaryTextsTest extends Boundary {
     }
 
     private static void beingAbsent() {
-        sentence("A RINGER is ABSENT or not: 1 if it was otherwise, else 0; RANGE: no such RINGER.");
+        promise(10, "A RINGER is ABSENT or not: 1 if it was otherwise, else 0; RANGE: no such RINGER.");
         BellTable x = new BellTable();
         due("was there", x.absent(3, false), 0);
         due("goes", x.absent(3, true), 1);
@@ -596,7 +606,7 @@ public final class BoundaryTextsTest extends Boundary {
         x.ringers(1);
         due("one who is told no more", x.absent(1, true), RANGE);
 
-        sentence("(A PARTING stays.)");
+        promise(10, "(A PARTING stays.)");
         BellTable y = withParting("at 0 1;", 4);
         due("the one who has the bell", y.absent(3, true), 1);
         due("the parting", y.count(4), 1);
@@ -605,6 +615,7 @@ public final class BoundaryTextsTest extends Boundary {
 
     public static void main(String[] args) {
         lastCall();
+        constants();
         bellsAndRingers();
         tape();
         tokens();
@@ -624,6 +635,6 @@ public final class BoundaryTextsTest extends Boundary {
         tellingStrokes();
         tellingRingers();
         beingAbsent();
-        finish();
+        finish(1, 10);
     }
 }

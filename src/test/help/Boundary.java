@@ -18,6 +18,7 @@ abstract class Boundary {
     static final int TWICE = 3;
     static final int ROOM = 4;
 
+    /** Empty where there is none: then the answers are tested all the same, but no sentence is looked up. */
     private static final String DOCUMENT = folded(read(Path.of("../shared/DOC.md")));
 
     private static final TreeSet<Integer> PROMISES = new TreeSet<>();
@@ -29,13 +30,12 @@ abstract class Boundary {
 
     /** All that is due behind this call, up to the next sentence, tests these words, which stand ahead of promise 1. */
     static void terms(String quoted) {
-        openSentence(quoted, DOCUMENT.substring(0, DOCUMENT.indexOf("## Promise 1:")));
+        openSentence(quoted, from("# BellTable", "## Promise 1:"));
     }
 
     /** All that is due behind this call, up to the next sentence, tests these words of that promise. */
     static void promise(int number, String quoted) {
-        String rest = DOCUMENT.substring(DOCUMENT.indexOf("## Promise " + number + ":"));
-        openSentence(quoted, rest.substring(0, rest.indexOf("## ", 1)));
+        openSentence(quoted, from("## Promise " + number + ":", "## "));
         PROMISES.add(number);
     }
 
@@ -100,7 +100,7 @@ abstract class Boundary {
         closeSentence();
         words = quoted;
         sentences++;
-        if (!section.contains(folded(quoted))) {
+        if (!DOCUMENT.isEmpty() && !section.contains(folded(quoted))) {
             tellWrong("is not in the document, or not there");
         }
     }
@@ -118,11 +118,22 @@ abstract class Boundary {
         System.out.println("\"" + words + "\": " + what);
     }
 
+    /** What the document has from a heading on up to what comes next; nothing without that heading. */
+    private static String from(String heading, String next) {
+        int start = DOCUMENT.indexOf(heading);
+        if (start < 0) {
+            return "";
+        }
+        int end = DOCUMENT.indexOf(next, start + heading.length());
+        return DOCUMENT.substring(start, end < 0 ? DOCUMENT.length() : end);
+    }
+
     private static String read(Path path) {
         try {
             return Files.readString(path);
         } catch (IOException e) {
-            throw new IllegalStateException("no document at " + path, e);
+            System.out.println("no document at " + path + ": the sentences are not looked up");
+            return "";
         }
     }
 
